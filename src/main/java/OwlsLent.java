@@ -890,9 +890,10 @@ public final class OwlsLent {
     private static final class House {
         private int wide = 6;
         private int high = 6;
-        private boolean sized = false;
         private int shutFrom = 6;
         private int shutTill = 17;
+        /** What is told once alone counts while a text is read: no copy has it. */
+        private boolean sized = false;
         private boolean shutTold = false;
         private int beds = 0;
         private int owls = 0;
@@ -907,9 +908,9 @@ public final class OwlsLent {
         void clear() {
             wide = 6;
             high = 6;
-            sized = false;
             shutFrom = 6;
             shutTill = 17;
+            sized = false;
             shutTold = false;
             beds = 0;
             owls = 0;
@@ -919,10 +920,8 @@ public final class OwlsLent {
         void copyFrom(House other) {
             wide = other.wide;
             high = other.high;
-            sized = other.sized;
             shutFrom = other.shutFrom;
             shutTill = other.shutTill;
-            shutTold = other.shutTold;
             beds = other.beds;
             owls = other.owls;
             sounds = other.sounds;
@@ -1602,7 +1601,6 @@ public final class OwlsLent {
 
         void copyFrom(Sentence other) {
             is = other.is;
-            ones = other.ones;
             size = other.size;
             System.arraycopy(other.steps, 0, steps, 0, MOST_STEPS);
             System.arraycopy(other.signs, 0, signs, 0, MOST_STEPS);

@@ -42,6 +42,11 @@ public final class ActsTest {
         c.due("let already", x.let(0), 1);
         c.due("it looks at it again", x.owl(0, 5), 0);
         x.shout(0, 0, 30);
+        x.hush(0);
+        x.hush(1);
+        x.undo();
+        x.undo();
+        c.due("undone: not hushed", x.let(0), 1);
         c.due("no such sound to hush", x.hush(2), -1);
         c.due("no such sound to let", x.let(2), -1);
         c.due("hush(-1)", x.hush(-1), -1);
@@ -232,6 +237,10 @@ public final class ActsTest {
         c.due("the sentence is there", x.said(-1), 2);
         x.note(0);
         c.due("the name is there", x.byteAt(0), 'a');
+        x.hush(1);
+        c.due("the latest before an image comes back", x.restore(1), true);
+        c.due("can't be undone then", x.undo(), -1);
+        c.due("t is not hushed", x.now(2), 1);
         c.due("restore(0) now", x.restore(0), true);
         c.due("one bed", x.count(0), 1);
         c.due("no sentence", x.said(-1), -1);
@@ -246,6 +255,8 @@ public final class ActsTest {
         OwlsLent x = Checks.houseOf(HOUSE);
         Checks.put(x, "told");
         x.sentence();
+        x.lend(0, 2);
+        x.lend(1, 0);
         x.hush(0);
         x.shout(0, 0, 1);
         x.hours(7);
@@ -256,6 +267,8 @@ public final class ActsTest {
             c.due("a new house: now(" + what + ")", x.now(what), 0);
         }
         c.due("a new house: no shout", x.now(1), 3);
+        c.due("o sits as told", x.owl(0, 0), 0);
+        c.due("p sits as told", x.owl(1, 0), 1);
         c.due("nothing can be undone", x.undo(), -1);
         c.due("no sentence", x.said(-1), -1);
     }

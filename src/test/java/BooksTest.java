@@ -94,6 +94,10 @@ public final class BooksTest {
         c.due("behind the first", x.now(0), 2);
         c.due("undone", x.undo(), 0);
         c.due("all of it", x.now(0) + x.now(2) + x.now(7) + x.owl(0, 0), 0);
+        c.dueBook(x, "shout 3 1 30;", 1, -1);
+        c.due("b looks north, to that cell", x.owl(1, 4), 3);
+        c.due("o looks east", x.owl(0, 4), 0);
+        c.due("undone", x.undo(), 0);
         c.dueBook(x, "hour 60;hour 1;let s;", 1, 2);
         c.due("lived", x.now(0), 61);
         c.dueBook(x, "hush q;", 1, -7);
@@ -190,6 +194,8 @@ public final class BooksTest {
         OwlsLent x = Checks.houseOf(HOUSE);
         c.dueSentence(x, "told" + " or told".repeat(19), 20, 0);
         c.dueSentence(x, "told" + " or told".repeat(20), -161, 4);
+        c.dueSentence(x, "told" + " and told".repeat(19), 20, 0);
+        c.dueSentence(x, "told" + " and told".repeat(20), -181, 4);
         c.dueSentence(x, "told" + " and (told)".repeat(9) + " or blind", 20, 0);
         c.dueSentence(x, "told" + " and (told)".repeat(9) + " or (blind)", -109, 4);
         c.dueSentence(x, "told" + " and (told)".repeat(9) + " or blind and not", -118, 4);

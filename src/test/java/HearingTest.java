@@ -112,6 +112,10 @@ public final class HearingTest {
         c.due("at 20", x.when(0, 3), 20);
         c.due("shut then", x.when(0, 4), -1);
         c.due("never", x.when(0, 2), -1);
+        x.shout(3, 3, 30);
+        c.due("here now", x.when(0, 4), 0);
+        c.due("east behind the shout", x.when(0, 0), 1);
+        x.undo();
         x.shout(1, 3, 30);
         c.due("the shout is now", x.when(0, 2), 0);
         c.due("and over in the next hour", x.when(0, 0), 1);

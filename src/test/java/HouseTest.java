@@ -25,6 +25,7 @@ public final class HouseTest {
         sounds();
         nows();
         counts();
+        nothingIsLeft();
         c.end();
     }
 
@@ -230,6 +231,7 @@ public final class HouseTest {
         c.dueHouse(BED + "wants a north;", -19, 1);
         c.dueHouse("shut 0 23;", 1, 0);
         c.dueHouse("shut 24 23;", -6, 2);
+        c.dueHouse("shut 23 0;", 1, 0);
         c.dueHouse("shut 0 24;", -8, 2);
         c.dueHouse("shut 6 17;shut 6 17;", -11, 3);
         c.dueHouse("shut 6;", -7, 1);
@@ -242,6 +244,7 @@ public final class HouseTest {
         c.dueHouse(" ".repeat(891) + BED, -901, 1);
         c.dueHouse("bed a" + " ".repeat(900), -901, 1);
         c.dueHouse("bed a" + " ".repeat(800), -806, 1);
+        c.dueHouse(BED + " ".repeat(890) + "bed b 1 0;", -901, 1);
         // a token that begins ahead of the 900th byte is read whole
         c.dueHouse(" ".repeat(899) + "zz;", -900, 1);
         c.dueHouse("bed" + " ".repeat(895) + "abcdefgh 0 0;", -899, 1);
@@ -375,6 +378,9 @@ public final class HouseTest {
         x.hush(2);
         c.due("hushed, as bits", x.now(2), 6);
         c.due("owls that look, as bits", x.now(3), 1);
+        x.hush(0);
+        c.due("none but for the shout", x.now(3), 0);
+        x.undo();
         x.let(1);
         c.due("both look", x.now(3), 3);
         // mid looks at pip and misses car; top looks at car (26 loud there), nothing else is 5 loud there
@@ -415,5 +421,25 @@ public final class HouseTest {
         c.due("a shout is not counted", x.count(2), 3);
         c.due("count(6)", x.count(6), -1);
         c.due("count(-1)", x.count(-1), -1);
+    }
+
+    private static void nothingIsLeft() {
+        OwlsLent x = Checks.houseOf("house 9 2;bed a 0 0;owl o a 9;bad o east;deaf o bell;wants a road;shut 0 23;");
+        Checks.put(x, "bed a 0 0;owl o a 9;");
+        x.house();
+        c.due("wide", x.count(3), 6);
+        c.due("high", x.count(4), 6);
+        c.due("no bad side", x.owl(0, 2), -1);
+        c.due("deaf to nothing", x.owl(0, 3), 0);
+        c.due("wants nothing", x.bed(0, 3), -1);
+        c.due("not shut", x.now(4), 0);
+        x.hours(17);
+        c.due("shut at 17", x.now(4), 1);
+        x.hours(1);
+        c.due("not at 18", x.now(4), 0);
+        x.hours(11);
+        c.due("not at 5", x.now(4), 0);
+        x.hours(1);
+        c.due("shut at 6", x.now(4), 1);
     }
 }

@@ -47,6 +47,7 @@ public final class RiddlesTest {
         c.due("the latest above 0", x.spotAt(5), 20);
         c.due("its next", x.next(), 0);
         c.due("all", spotsOf(x, 30, 0, 0), 5);
+        c.due("the least loud", spotsOf(x, 1, 0, 255), 9);
         c.due("two alike", spotsOf(x, 30, 0, 0, 0, 0), 5);
         c.due("two not alike", spotsOf(x, 30, 0, 0, 0, 1), 0);
         c.due("six", spotsOf(x, 30, 0, 0, 0, 0, 0, 0, 0, 0, 0, 0, 0, 0), 5);
@@ -99,6 +100,17 @@ public final class RiddlesTest {
         OwlsLent z = Checks.houseOf("house 3 3;bed a 0 0;bed c 1 1;owl o a 3;owl q c 1;");
         spotsOf(z, 4, 0, 255);
         c.due("q leaves the least", z.next(), 1);
+        OwlsLent bad = Checks.houseOf("house 3 3;bed a 0 0;bed c 1 1;owl o a 3;owl q c 1;bad q east;");
+        spotsOf(bad, 4, 0, 255);
+        c.due("what o tells is not counted with q's", bad.next(), 1);
+        // p tells a row of 9 from the north to the south; o hears nothing below 20
+        OwlsLent long9 = Checks.houseOf("house 2 9;bed a 0 0;bed b 0 4;owl o a 20;owl p b 1;");
+        c.due("all cells", spotsOf(long9, 19, 0, 255), 18);
+        c.due("p leaves seven", long9.next(), 1);
+        OwlsLent wide = Checks.houseOf("house 9 9;bed a 0 0;owl o a 1;deaf o voice;");
+        c.due("all 81 cells", spotsOf(wide, 9, 0, 255), 81);
+        c.due("the last cell", wide.spotAt(80), 80);
+        c.due("the one owl, though it leaves all", wide.next(), 0);
     }
 
     private static int keenOf(OwlsLent x, int... bytes) {
@@ -204,6 +216,11 @@ public final class RiddlesTest {
         c.due("hours above 399, too", x.best(), 2);
         x.hush(0);
         c.due("sounds as they are now", x.best(), 0);
+        OwlsLent y = Checks.houseOf("bed a 0 0;owl o a 1;sound s mouse 1 1 9 0 2;wants a mouse;");
+        y.shout(0, 0, 30);
+        c.due("a shout drowns nothing", y.best(), 3);
+        y.hush(0);
+        c.due("a shout is no mouse", y.best(), 0);
     }
 
     private static int codeOf(OwlsLent x, int o, int... bytes) {
@@ -251,6 +268,16 @@ public final class RiddlesTest {
         c.due("no such owl", codeOf(x, 1, 4), -1);
         c.due("no such owl -1", codeOf(x, -1, 4), -1);
         c.due("none was told", x.codeAt(0), -1);
+        x.feed(0x04ff0000, 0, 0, 0, 0);
+        x.end(1);
+        c.due("what was cut off does not count", x.code(0), 1);
+        x.feed(0x040004ff, 0, 0, 0, 0);
+        x.end(3);
+        c.due("nor in spots()", x.spots(), 1);
+        OwlsLent y = Checks.houseOf("bed a 0 0;owl o a 1;sound s mouse 0 0 5 0 23;");
+        Checks.put(y, "bed a 0 0;owl o a 1;");
+        y.house();
+        c.due("no sound of the old house", codeOf(y, 0, 4), -2);
         x.shout(0, 0, 30);
         x.hush(0);
         c.due("here", codeOf(x, 0, 4), 1);
