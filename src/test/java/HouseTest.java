@@ -245,6 +245,7 @@ public final class HouseTest {
         c.dueHouse("bed a" + " ".repeat(900), -901, 1);
         c.dueHouse("bed a" + " ".repeat(800), -806, 1);
         c.dueHouse(BED + " ".repeat(890) + "bed b 1 0;", -901, 1);
+        c.dueHouse(BED + "bed" + " ".repeat(887) + "a 1 0;", -901, 1);
         // a token that begins ahead of the 900th byte is read whole
         c.dueHouse(" ".repeat(899) + "zz;", -900, 1);
         c.dueHouse("bed" + " ".repeat(895) + "abcdefgh 0 0;", -899, 1);
@@ -325,6 +326,7 @@ public final class HouseTest {
         x.shout(3, 3, 4);
         c.due("it looks here", x.owl(0, 4), 4);
         c.due("at the shout, behind all sounds", x.owl(0, 5), 3);
+        c.due("that is something", x.now(3), 1);
         c.dueNoSuch("owl(1, 0)", () -> x.owl(1, 0));
         c.dueNoSuch("owl(-1, 0)", () -> x.owl(-1, 0));
         c.dueNoSuch("owl(0, 6)", () -> x.owl(0, 6));
