@@ -404,12 +404,12 @@ public final class OwlsLent {
         int least = 1;
         int most = MOST_FROM;
         for (int i = 0; i + 2 < n; i += 3) {
-            int full = tape.at(i);
+            // Only the third byte has bounds here: how loud and how far may be any.
+            int loudness = tape.at(i) - tape.at(i + 1);
             int looked = tape.at(i + 2);
-            if (full < 1 || full > MOST_LOUD || looked > 1) {
+            if (looked > 1) {
                 return NONE;
             }
-            int loudness = full - tape.at(i + 1);
             if (looked == 1) {
                 most = Math.min(most, loudness);
             } else {
@@ -1568,10 +1568,11 @@ public final class OwlsLent {
                 case W_LET:
                     return s.letOne(row[1]) == 0 ? 0 : 21;
                 case W_SHOUT:
-                    if (s.isShouted()) {
-                        return 31;
+                    // Of a cell that there is not, shouting has no reason of its own to tell.
+                    if (!h.hasCell(row[1], row[2])) {
+                        return NO_CELL;
                     }
-                    return h.hasCell(row[1], row[2]) ? s.shoutIn(row[1], row[2], row[3]) : NO_CELL;
+                    return s.shoutIn(row[1], row[2], row[3]) == 0 ? 0 : 31;
                 default:
                     if (row[1] > LAST_HOUR - s.hour) {
                         return FEWER_HOURS;

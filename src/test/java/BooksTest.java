@@ -124,9 +124,16 @@ public final class BooksTest {
         dueWrong(x, "shout 0 3 1;", 0, 39);
         dueWrong(x, "shout 8 8 30;", 0, 39);
         dueWrong(x, "shout 3 2 30;", -1, 0);
-        dueWrong(x, "shout 0 0 1;shout 8 8 1;", 1, 31);
+        dueWrong(x, "shout 0 0 1;shout 8 8 1;", 1, 39);
         x.shout(0, 0, 1);
         dueWrong(x, "shout 0 0 1;", 0, 31);
+        dueWrong(x, "shout 3 2 1;", 0, 31);
+        dueWrong(x, "shout 4 2 1;", 0, 39);
+        dueWrong(x, "shout 3 3 1;", 0, 39);
+        c.due("the book's shouts are not lived", x.now(7), 1);
+        c.dueBook(x, "hush s;shout 8 0 1;", 1, 1);
+        c.dueTold(x, 39, 1, 0, 3);
+        c.due("the line ahead of it is", x.now(2), 1);
     }
 
     private static void hoursLeft() {

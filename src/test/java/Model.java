@@ -629,7 +629,7 @@ final class Model {
         for (int n = 1; n <= 20; n++) {
             boolean ok = true;
             for (int i = 0; i < t.length(); i += 3) {
-                if (t.charAt(i) < 1 || t.charAt(i) > 30 || t.charAt(i + 2) > 1) return -1;
+                if (t.charAt(i + 2) > 1) return -1;
                 ok &= (t.charAt(i) - t.charAt(i + 1) >= n) == (t.charAt(i + 2) == 1);
             }
             if (ok) list.add(n);
@@ -777,7 +777,7 @@ final class Model {
                 case 0 -> w.lend(l[1], l[2]);
                 case 1 -> w.hushed.add(l[1]) ? 0 : 11;
                 case 2 -> w.hushed.remove(l[1]) ? 0 : 21;
-                case 3 -> w.shout != null ? 31 : l[1] >= w.wide || l[2] >= w.high ? 39 : w.shoutAt(l[1], l[2], l[3]);
+                case 3 -> l[1] >= w.wide || l[2] >= w.high ? 39 : w.shoutAt(l[1], l[2], l[3]) == 0 ? 0 : 31;
                 default -> w.hour + l[1] > 400 ? 41 : 0;
             };
             if (why != 0) break;

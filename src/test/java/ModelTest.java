@@ -218,6 +218,17 @@ public final class ModelTest {
         put(s.toString());
     }
 
+    /** For keen(): any LOUD, mostly so far off that it is 0 to 23 loud, for else hardly a number is left or lost. */
+    private String triples(int count) {
+        StringBuilder s = new StringBuilder();
+        for (int i = 0; i < count; i++) {
+            int full = of(256);
+            int far = of(6) == 0 ? of(256) : Math.max(0, full - of(24));
+            s.append((char) full).append((char) far).append((char) (of(20) == 0 ? 2 + of(254) : of(2)));
+        }
+        return s.toString();
+    }
+
     private void same(String call, Checks.Call mine, Checks.Call its) {
         if (wrong > 0) {
             return;
@@ -294,10 +305,10 @@ public final class ModelTest {
             case 23 -> same("loud " + s + " " + b, () -> x.loud(s, b), () -> m.loud(s, b));
             case 24, 25 -> stepSpots();
             case 26 -> {
-                putBytes(of(6) == 0 ? of(24) : 3 * (1 + of(3)), 0, 0, 12);
-                if (of(2) == 0) {
-                    int full = 2 + of(20);
-                    put("" + (char) full + (char) of(full) + (char) 1 + (char) full + (char) of(full) + (char) 0);
+                if (of(4) == 0) {
+                    putBytes(of(6) == 0 ? of(24) : 3 * (1 + of(3)), 0, 0, 12);
+                } else {
+                    put(triples(1 + of(3)));
                 }
                 same("keen", x::keen, m::keen);
                 same("keenLeast", x::keenLeast, () -> m.least);

@@ -8,6 +8,7 @@ public final class RiddlesTest {
         spotsAndOwls();
         next();
         keen();
+        keenOfAnyLoud();
         keenNotAsTold();
         best();
         bestOfLikeOnes();
@@ -146,11 +147,27 @@ public final class RiddlesTest {
         dueKeen(x, 2, 4, 5, 9, 1, 1, 9, 2, 1, 9, 3, 1, 9, 4, 1, 9, 6, 0, 9, 7, 0);
     }
 
+    /** LOUD and how far are bytes: no bounds are told for them. */
+    private static void keenOfAnyLoud() {
+        OwlsLent x = new OwlsLent();
+        dueKeen(x, 20, 1, 20, 0, 0, 0);
+        dueKeen(x, 3, 1, 3, 31, 28, 1);
+        dueKeen(x, 20, 1, 20, 0, 255, 0);
+        dueKeen(x, 5, 1, 5, 255, 250, 1);
+        dueKeen(x, 15, 6, 20, 255, 250, 0);
+        dueKeen(x, 20, 1, 20, 255, 0, 1);
+        dueKeen(x, 0, 1, 20, 0, 0, 1);
+        dueKeen(x, 0, 1, 20, 0, 255, 1);
+        dueKeen(x, 0, 1, 20, 255, 0, 0);
+        dueKeen(x, 0, 1, 20, 31, 0, 0);
+        dueKeen(x, 2, 4, 5, 0, 0, 0, 128, 123, 1, 200, 197, 0);
+    }
+
     private static void keenNotAsTold() {
         OwlsLent x = new OwlsLent();
         keenOf(x, 8, 3, 1);
-        int[][] wrong = {{}, {8}, {8, 3}, {8, 3, 2}, {8, 3, 255}, {0, 3, 1}, {31, 3, 1}, {8, 3, 1, 8},
-            {8, 3, 1, 8, 4, 2}, {8, 3, 1, 8, 3, 1, 8, 3, 1, 8, 3, 1, 8, 3, 1, 8, 3, 1, 8, 3, 1}};
+        int[][] wrong = {{}, {8}, {8, 3}, {8, 3, 2}, {8, 3, 255}, {0, 0, 2}, {31, 3, 2}, {8, 3, 1, 8},
+            {8, 3, 1, 8, 4, 2}, {8, 3, 2, 8, 4, 1}, {8, 3, 1, 8, 4}, {8, 3, 1, 8, 3, 1, 8, 3, 1, 8, 3, 1, 8, 3, 1, 8, 3, 1, 8, 3, 1}};
         for (int[] w : wrong) {
             dueKeen(x, -1, 1, 5, w);
         }
