@@ -7,6 +7,7 @@ final class Checks {
     }
 
     private final String title;
+    private String words = "";
     private int checked = 0;
     private int wrong = 0;
 
@@ -14,11 +15,16 @@ final class Checks {
         this.title = title;
     }
 
+    /** The words of the document to which the next answers are held. */
+    void says(String wordsOfTheDocument) {
+        words = ": \"" + wordsOfTheDocument + "\"";
+    }
+
     void due(String call, long got, long want) {
         checked++;
         if (got != want) {
             wrong++;
-            System.out.println(title + ": " + call + " answered " + got + ", due is " + want);
+            System.out.println(title + words + ": " + call + " answered " + got + ", due is " + want);
         }
     }
 
@@ -31,7 +37,7 @@ final class Checks {
         try {
             long got = made.run();
             wrong++;
-            System.out.println(title + ": " + call + " answered " + got + ", due is NoSuchElementException");
+            System.out.println(title + words + ": " + call + " answered " + got + ", due is NoSuchElementException");
         } catch (NoSuchElementException e) {
             // as due
         }
