@@ -1,10 +1,8 @@
 /** Each edge that the document names of what is done, undone and kept, by its words: promises 10 to 15, 35, 41 and 42. */
 public final class ActsEdgesTest {
-    private static final int MAX = Integer.MAX_VALUE;
-    private static final int MIN = Integer.MIN_VALUE;
-    private static final int[] NO_SUCH = {-1, -2, MIN, MIN + 1, MAX, MAX - 1, 256, 1 << 16};
     private static final String HOUSE = "house 4 3;bed a 0 0;bed b 3 2;bed e 3 0;owl o a 1;owl p b 2;"
         + "sound s mouse 0 0 6 0 23;sound t road 1 0 6 0 23;shut 6 17;";
+    private static final String FULL = Checks.beds(6) + Checks.owls(6) + Checks.sounds(8);
     private static final Checks c = new Checks("ActsEdgesTest");
 
     public static void main(String[] args) {
@@ -21,6 +19,7 @@ public final class ActsEdgesTest {
         undoEightAtMost();
         undoEach();
         undoOfRefusedActs();
+        actsBehindWhatOnlyAsks();
         drawnNotAsTold();
         drawnThatAreLeft();
         drawnWraps();
@@ -34,26 +33,6 @@ public final class ActsEdgesTest {
         c.end();
     }
 
-    private static OwlsLent at(String house, int hour) {
-        OwlsLent x = Checks.houseOf(house);
-        while (x.now(0) < hour) {
-            x.hours(Math.min(60, hour - x.now(0)));
-        }
-        return x;
-    }
-
-    private static String fullHouse() {
-        StringBuilder s = new StringBuilder();
-        for (int i = 0; i < 6; i++) {
-            s.append("bed b").append((char) ('a' + i)).append(' ').append(i).append(" 0;");
-            s.append("owl o").append((char) ('a' + i)).append(" b").append((char) ('a' + i)).append(" 1;");
-        }
-        for (int i = 0; i < 8; i++) {
-            s.append("sound s").append((char) ('a' + i)).append(" mouse 0 0 9 0 23;");
-        }
-        return s.toString();
-    }
-
     private static void lendNoSuch() {
         c.says("An OWL is LENT to a BED: 0, or why not; NONE: no such ones");
         OwlsLent x = Checks.houseOf(HOUSE);
@@ -61,12 +40,12 @@ public final class ActsEdgesTest {
         c.due("lend(2, 2)", x.lend(2, 2), -1);
         c.due("lend(0, 3)", x.lend(0, 3), -1);
         c.due("lend(2, 3)", x.lend(2, 3), -1);
-        for (int no : NO_SUCH) {
+        for (int no : Checks.NO_SUCH) {
             c.due("lend(" + no + ", 0)", x.lend(no, 0), -1);
             c.due("lend(0, " + no + ")", x.lend(0, no), -1);
             c.due("lend(" + no + ", " + no + ")", x.lend(no, no), -1);
         }
-        OwlsLent full = Checks.houseOf(fullHouse());
+        OwlsLent full = Checks.houseOf(FULL);
         c.due("lend(5, 5)", full.lend(5, 5), 1);
         c.due("lend(5, 0)", full.lend(5, 0), 2);
         c.due("lend(6, 0)", full.lend(6, 0), -1);
@@ -87,9 +66,9 @@ public final class ActsEdgesTest {
         c.due("o by b", x.owl(0, 0), 1);
         c.due("p by a", x.owl(1, 0), 0);
         c.due("nobody by e", x.bed(2, 2), -1);
-        OwlsLent shut = at(HOUSE, 6);
+        OwlsLent shut = Checks.houseAt(HOUSE, 6);
         c.due("a shut owl is lent, too", shut.lend(0, 2), 0);
-        OwlsLent over = at(HOUSE, 400);
+        OwlsLent over = Checks.houseAt(HOUSE, 400);
         c.due("at hour 400, too", over.lend(0, 2), 0);
     }
 
@@ -99,14 +78,14 @@ public final class ActsEdgesTest {
         x.shout(0, 0, 30);
         c.due("hush(2)", x.hush(2), -1);
         c.due("let(2)", x.let(2), -1);
-        for (int no : NO_SUCH) {
+        for (int no : Checks.NO_SUCH) {
             c.due("hush(" + no + ")", x.hush(no), -1);
             c.due("let(" + no + ")", x.let(no), -1);
         }
         c.due("hush(32)", x.hush(32), -1);
         c.due("let(32)", x.let(32), -1);
         c.due("nothing is hushed", x.now(2), 0);
-        OwlsLent full = Checks.houseOf(fullHouse());
+        OwlsLent full = Checks.houseOf(FULL);
         c.due("hush(7)", full.hush(7), 0);
         c.due("hush(8)", full.hush(8), -1);
         c.due("let(8)", full.let(8), -1);
@@ -130,7 +109,7 @@ public final class ActsEdgesTest {
         OwlsLent y = Checks.houseOf("sound s mouse 0 0 6 5 5;");
         c.due("not on, yet not hushed", y.let(0), 1);
         c.due("not on, hushed", y.hush(0), 0);
-        OwlsLent over = at(HOUSE, 400);
+        OwlsLent over = Checks.houseAt(HOUSE, 400);
         c.due("at hour 400, too", over.hush(0), 0);
         c.due("and let", over.let(0), 0);
     }
@@ -146,7 +125,7 @@ public final class ActsEdgesTest {
             c.due("shout(0, -1, 1)", x.shout(0, -1, 1), -1);
             c.due("shout(0, 0, 0)", x.shout(0, 0, 0), -1);
             c.due("shout(0, 0, 31)", x.shout(0, 0, 31), -1);
-            for (int no : NO_SUCH) {
+            for (int no : Checks.NO_SUCH) {
                 c.due("shout(" + no + ", 0, 1)", x.shout(no, 0, 1), -1);
                 c.due("shout(0, " + no + ", 1)", x.shout(0, no, 1), -1);
                 c.due("shout(0, 0, " + no + ")", x.shout(0, 0, no), -1);
@@ -173,7 +152,7 @@ public final class ActsEdgesTest {
         Checks.put(x, "hour 1;shout 0 0 1;");
         x.book(1);
         c.due("a book's shout is one", x.shout(0, 0, 1), 1);
-        OwlsLent over = at(HOUSE, 400);
+        OwlsLent over = Checks.houseAt(HOUSE, 400);
         c.due("at hour 400, too", over.shout(0, 0, 1), 0);
         c.due("once", over.shout(0, 0, 1), 1);
     }
@@ -181,7 +160,7 @@ public final class ActsEdgesTest {
     private static void hoursNotAsTold() {
         c.says("n (1 to 60) HOURS go by: how many did; NONE: not as told");
         OwlsLent x = Checks.houseOf(HOUSE);
-        for (int no : new int[] {0, -1, 61, 62, 100, 400, MAX, MIN}) {
+        for (int no : new int[] {0, -1, 61, 62, 100, 400, Checks.MAX, Checks.MIN}) {
             c.due("hours(" + no + ")", x.hours(no), -1);
         }
         c.due("none went", x.now(0), 0);
@@ -199,7 +178,7 @@ public final class ActsEdgesTest {
         c.says("how many did; 400: all are over");
         for (int hour : new int[] {339, 340, 341, 398, 399, 400}) {
             for (int n : new int[] {1, 2, 59, 60}) {
-                OwlsLent x = at(HOUSE, hour);
+                OwlsLent x = Checks.houseAt(HOUSE, hour);
                 int due = Math.min(n, 400 - hour);
                 c.due("hours(" + n + ") at " + hour, x.hours(n), due);
                 c.due("then", x.now(0), hour + due);
@@ -335,7 +314,7 @@ public final class ActsEdgesTest {
         x.book(2);
         x.undo();
         c.due("nothing was done", x.undo(), -1);
-        OwlsLent over = at(HOUSE, 400);
+        OwlsLent over = Checks.houseAt(HOUSE, 400);
         int most = 7;
         c.due("hours() of 0", over.hours(60), 0);
         c.due("drawn() of 0", over.drawn(60, 1), 0);
@@ -343,16 +322,113 @@ public final class ActsEdgesTest {
         c.due("hour 360", over.now(0), 360);
     }
 
+    private static void ask(OwlsLent x, int which) {
+        switch (which) {
+            case 0 -> x.odds(0, 30, 5);
+            case 1 -> {
+                Checks.put(x, "hush t;shout 2 2 9;hour 9;lend p e;");
+                x.book(0);
+            }
+            case 2 -> {
+                Checks.put(x, "lend o a;hour 9;");
+                x.book(1);
+            }
+            case 3 -> {
+                x.hours(9);
+                x.undo();
+            }
+            case 4 -> x.lend(0, 0);
+            case 5 -> {
+                x.image(0);
+                x.hours(9);
+                x.restore(0);
+            }
+            case 6 -> {
+                x.drawn(9, 3);
+                x.undo();
+            }
+            case 7 -> x.worth(0, 60);
+            case 8 -> x.when(0, 4);
+            case 9 -> x.best();
+            case 10 -> x.duel(0, 4, 4);
+            case 11 -> {
+                x.hours(9);
+                Checks.put(x, HOUSE);
+                x.house();
+            }
+            default -> x.would(0, 2);
+        }
+    }
+
+    private static void actsBehindWhatOnlyAsks() {
+        c.says("what only asks, what is refused and what is undone leaves nothing behind for the next act");
+        for (int which = 0; which < 13; which++) {
+            for (int act = 0; act < 7; act++) {
+                OwlsLent x = Checks.houseOf(HOUSE);
+                if (act == 4) {
+                    x.hush(0);
+                }
+                ask(x, which);
+                int[] due = {0, 3, 0, 3, 0, 0, 0, 0};
+                switch (act) {
+                    case 0 -> {
+                        c.due("lend()", x.lend(0, 2), 0);
+                    }
+                    case 1 -> {
+                        c.due("hush()", x.hush(1), 0);
+                        due[1] = 1;
+                        due[2] = 2;
+                        due[3] = 1;
+                    }
+                    case 2 -> {
+                        c.due("shout()", x.shout(0, 0, 1), 0);
+                        due[1] = 7;
+                        due[7] = 1;
+                    }
+                    case 3 -> {
+                        c.due("hours()", x.hours(1), 1);
+                        due[0] = 1;
+                        due[5] = 2;
+                        due[6] = 1;
+                    }
+                    case 4 -> {
+                        c.due("let(), unless the house is a new one", x.let(0), which == 11 ? 1 : 0);
+                    }
+                    case 5 -> {
+                        c.due("drawn()", x.drawn(1, 2), 1);
+                        OwlsLent fresh = Checks.houseOf(HOUSE);
+                        fresh.drawn(1, 2);
+                        for (int what = 0; what < 8; what++) {
+                            due[what] = fresh.now(what);
+                        }
+                    }
+                    default -> {
+                        Checks.put(x, "hour 2;");
+                        c.due("book()", x.book(1), -1);
+                        due[0] = 2;
+                        due[5] = 4;
+                        due[6] = 2;
+                    }
+                }
+                for (int what = 0; what < 8; what++) {
+                    c.due("now(" + what + ") behind act " + act + " behind " + which, x.now(what), due[what]);
+                }
+                c.due("o's bed behind act " + act + " behind " + which, x.owl(0, 0), act == 0 ? 2 : 0);
+                c.due("p's bed behind act " + act + " behind " + which, x.owl(1, 0), 1);
+            }
+        }
+    }
+
     private static void drawnNotAsTold() {
         c.says("n (1 to 60) HOURS DRAWN by a seed: how many went by; NONE: not as told");
         OwlsLent x = Checks.houseOf(HOUSE);
-        for (int no : new int[] {0, -1, 61, 62, 400, MAX, MIN}) {
+        for (int no : new int[] {0, -1, 61, 62, 400, Checks.MAX, Checks.MIN}) {
             c.due("drawn(" + no + ", 1)", x.drawn(no, 1), -1);
         }
         c.due("none went", x.now(0), 0);
         c.due("nothing to undo", x.undo(), -1);
         for (int n : new int[] {1, 2, 59, 60}) {
-            for (int seed : new int[] {0, 1, -1, MAX, MIN}) {
+            for (int seed : new int[] {0, 1, -1, Checks.MAX, Checks.MIN}) {
                 OwlsLent y = Checks.houseOf(HOUSE);
                 c.due("drawn(" + n + ", " + seed + ")", y.drawn(n, seed), n);
                 c.due("the hour", y.now(0), n);
@@ -365,10 +441,10 @@ public final class ActsEdgesTest {
     private static void drawnThatAreLeft() {
         c.says("how many went by; 400: all are over");
         for (int hour : new int[] {340, 341, 399, 400}) {
-            OwlsLent x = at(HOUSE, hour);
+            OwlsLent x = Checks.houseAt(HOUSE, hour);
             c.due("drawn(60, 5) at " + hour, x.drawn(60, 5), 400 - hour);
             c.due("then", x.now(0), 400);
-            OwlsLent y = at(HOUSE, hour);
+            OwlsLent y = Checks.houseAt(HOUSE, hour);
             y.drawn(400 - hour, 5);
             for (int what = 0; what < 8; what++) {
                 c.due("as many as are left: now(" + what + ")", x.now(what), y.now(what));
@@ -391,7 +467,7 @@ public final class ActsEdgesTest {
         y.drawn(1, -1);
         c.due("seed -1", y.now(7), 0);
         for (int i = -300; i <= 300; i++) {
-            for (int seed : new int[] {i, MAX - 300 + i, MIN + 300 + i, i * 7654321}) {
+            for (int seed : new int[] {i, Checks.MAX - 300 + i, Checks.MIN + 300 + i, i * 7654321}) {
                 OwlsLent z = new OwlsLent();
                 z.drawn(1, seed);
                 long wide = (seed * 1103515245L + 12345) & 0xffffffffL;
@@ -461,7 +537,7 @@ public final class ActsEdgesTest {
         c.due("image(1)", x.image(1), true);
         c.due("image(2)", x.image(2), false);
         c.due("restore(2)", x.restore(2), false);
-        for (int no : NO_SUCH) {
+        for (int no : Checks.NO_SUCH) {
             c.due("image(" + no + ")", x.image(no), false);
             c.due("restore(" + no + ")", x.restore(no), false);
         }

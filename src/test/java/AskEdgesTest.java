@@ -1,9 +1,5 @@
 /** Each edge that the document names of what is asked, by its words: promises 16 to 18, 20 to 34 and 36. */
 public final class AskEdgesTest {
-    private static final int MAX = Integer.MAX_VALUE;
-    private static final int MIN = Integer.MIN_VALUE;
-    private static final int[] NO_SUCH = {-1, -2, MIN, MIN + 1, MAX, MAX - 1, 256, 1 << 16};
-    private static final String[] SIDES = {"east", "south", "west", "north"};
     private static final Checks c = new Checks("AskEdgesTest");
 
     public static void main(String[] args) {
@@ -50,46 +46,14 @@ public final class AskEdgesTest {
         c.end();
     }
 
-    private static OwlsLent at(String house, int hour) {
-        OwlsLent x = Checks.houseOf(house);
-        while (x.now(0) < hour) {
-            x.hours(Math.min(60, hour - x.now(0)));
-        }
-        return x;
-    }
-
-    private static String beds(int count) {
-        StringBuilder s = new StringBuilder();
-        for (int i = 0; i < count; i++) {
-            s.append("bed b").append((char) ('a' + i)).append(' ').append(i).append(" 0;");
-        }
-        return s.toString();
-    }
-
-    private static String owls(int count) {
-        StringBuilder s = new StringBuilder();
-        for (int i = 0; i < count; i++) {
-            s.append("owl o").append((char) ('a' + i)).append(" b").append((char) ('a' + i)).append(" 1;");
-        }
-        return s.toString();
-    }
-
-    private static String sounds(int count) {
-        StringBuilder s = new StringBuilder();
-        for (int i = 0; i < count; i++) {
-            s.append("sound s").append((char) ('a' + i)).append(" mouse 0 0 9 0 23;");
-        }
-        return s.toString();
-    }
-
     private static void hearsNoSuch() {
         c.says("All that an OWL HEARS, as bits; NONE: no such one");
         for (int owls = 0; owls <= 6; owls++) {
-            OwlsLent x = Checks.houseOf(beds(6) + owls(owls) + sounds(1));
+            OwlsLent x = Checks.houseOf(Checks.beds(6) + Checks.owls(owls) + Checks.sounds(1));
             for (int o = 0; o < 8; o++) {
                 c.due("hears(" + o + ") of " + owls, x.hears(o), o < owls ? 1 : -1);
             }
-            for (int no : NO_SUCH) {
+            for (int no : Checks.NO_SUCH) {
                 c.due("hears(" + no + ")", x.hears(no), -1);
             }
         }
@@ -97,7 +61,7 @@ public final class AskEdgesTest {
 
     private static void hearsAll() {
         c.says("All that an OWL HEARS, as bits");
-        OwlsLent x = Checks.houseOf(beds(2) + owls(2) + sounds(8) + "bad ob west;");
+        OwlsLent x = Checks.houseOf(Checks.beds(2) + Checks.owls(2) + Checks.sounds(8) + "bad ob west;");
         c.due("eight", x.hears(0), 255);
         x.shout(0, 0, 1);
         c.due("and the shout", x.hears(0), 511);
@@ -111,19 +75,19 @@ public final class AskEdgesTest {
     private static void wouldNoSuch() {
         c.says("NONE: nowhere, no such ones");
         for (int owls = 0; owls <= 6; owls++) {
-            OwlsLent x = Checks.houseOf(beds(6) + owls(owls) + sounds(1));
+            OwlsLent x = Checks.houseOf(Checks.beds(6) + Checks.owls(owls) + Checks.sounds(1));
             for (int o = 0; o < 8; o++) {
                 for (int b = 0; b < 8; b++) {
                     int due = o >= owls || b >= 6 ? -1 : b == 0 ? 4 : 2;
                     c.due("would(" + o + ", " + b + ") of " + owls, x.would(o, b), due);
                 }
             }
-            for (int no : NO_SUCH) {
+            for (int no : Checks.NO_SUCH) {
                 c.due("would(" + no + ", 0)", x.would(no, 0), -1);
                 c.due("would(0, " + no + ")", x.would(0, no), -1);
             }
         }
-        OwlsLent x = Checks.houseOf(beds(1) + owls(1));
+        OwlsLent x = Checks.houseOf(Checks.beds(1) + Checks.owls(1));
         c.due("nowhere", x.would(0, 0), -1);
         c.due("no such bed", x.would(0, 1), -1);
     }
@@ -157,7 +121,7 @@ public final class AskEdgesTest {
                 c.due("when(0, " + asked + ")", x.when(0, asked), asked == side ? 0 : -1);
             }
             c.due("when(1, " + side + ")", x.when(1, side), -1);
-            for (int no : NO_SUCH) {
+            for (int no : Checks.NO_SUCH) {
                 c.due("when(" + no + ", " + side + ")", x.when(no, side), -1);
                 c.due("when(0, " + no + ")", x.when(0, no), -1);
             }
@@ -188,20 +152,20 @@ public final class AskEdgesTest {
         c.says("NONE: longer, fewer are left");
         String house = "bed a 1 1;owl o a 1;sound s bell 1 1 9 10 10;shut 0 0;";
         // the hour of the day 10: 370 and 394 are the last ones
-        c.due("from 371", at(house, 371).when(0, 4), 23);
-        c.due("from 394", at(house, 394).when(0, 4), 0);
-        c.due("from 395: 418", at(house, 395).when(0, 4), -1);
-        c.due("from 399", at(house, 399).when(0, 4), -1);
-        c.due("from 400", at(house, 400).when(0, 4), -1);
+        c.due("from 371", Checks.houseAt(house, 371).when(0, 4), 23);
+        c.due("from 394", Checks.houseAt(house, 394).when(0, 4), 0);
+        c.due("from 395: 418", Checks.houseAt(house, 395).when(0, 4), -1);
+        c.due("from 399", Checks.houseAt(house, 399).when(0, 4), -1);
+        c.due("from 400", Checks.houseAt(house, 400).when(0, 4), -1);
         // the hour of the day 16 is hour 400: just as many are left; 17 would be one more
         String last = "bed a 1 1;owl o a 1;sound s bell 1 1 9 16 16;shut 0 0;";
         String over = "bed a 1 1;owl o a 1;sound s bell 1 1 9 17 17;shut 0 0;";
         for (int hour : new int[] {378, 390, 399}) {
-            c.due("hour 400 from " + hour, at(last, hour).when(0, 4), 400 - hour);
-            c.due("hour 401 from " + hour, at(over, hour).when(0, 4), -1);
+            c.due("hour 400 from " + hour, Checks.houseAt(last, hour).when(0, 4), 400 - hour);
+            c.due("hour 401 from " + hour, Checks.houseAt(over, hour).when(0, 4), -1);
         }
-        c.due("at 400", at(last, 400).when(0, 4), 0);
-        c.due("at 400", at(over, 400).when(0, 4), -1);
+        c.due("at 400", Checks.houseAt(last, 400).when(0, 4), 0);
+        c.due("at 400", Checks.houseAt(over, 400).when(0, 4), -1);
     }
 
     private static void whenNothingElseIsDone() {
@@ -215,6 +179,16 @@ public final class AskEdgesTest {
         c.due("nothing is done by asking", x.now(0), 0);
         x.hours(1);
         c.due("no shout any more", x.when(0, 0), -1);
+        // on at this hour of the day alone, drowned by the shout today
+        OwlsLent y = Checks.houseAt("bed a 1 1;owl o a 1;sound s bell 1 2 9 3 3;", 3);
+        y.shout(2, 1, 30);
+        c.due("a whole day", y.when(0, 1), 24);
+        OwlsLent last = Checks.houseAt("bed a 1 1;owl o a 1;sound s bell 1 2 9 16 16;shut 0 0;", 376);
+        last.shout(2, 1, 30);
+        c.due("just as many are left", last.when(0, 1), 24);
+        OwlsLent over = Checks.houseAt("bed a 1 1;owl o a 1;sound s bell 1 2 9 17 17;shut 0 0;", 377);
+        over.shout(2, 1, 30);
+        c.due("one fewer is left", over.when(0, 1), -1);
     }
 
     private static int spotsOf(OwlsLent x, int... bytes) {
@@ -259,7 +233,7 @@ public final class AskEdgesTest {
     private static void spotsOwlsAndSides() {
         c.says("an OWL, a SIDE, 4, or 255 if it looked at nothing; NONE: not as told");
         for (int owls = 0; owls <= 6; owls++) {
-            OwlsLent x = Checks.houseOf(beds(6) + owls(owls));
+            OwlsLent x = Checks.houseOf(Checks.beds(6) + Checks.owls(owls));
             for (int o = 0; o < 8; o++) {
                 c.due("owl " + o + " of " + owls, spotsOf(x, 30, o, 4), o < owls ? 1 : -1);
                 c.due("owl " + o + " of " + owls + " behind another", spotsOf(x, 30, 0, 4, o, 255), o < owls ? 0 : -1);
@@ -312,7 +286,7 @@ public final class AskEdgesTest {
                 c.due("spotAt(" + k + ")", x.spotAt(k), 9 * (k / wide) + k % wide);
             }
             c.due("spotAt behind the last", x.spotAt(wide * high), -1);
-            for (int no : NO_SUCH) {
+            for (int no : Checks.NO_SUCH) {
                 c.due("spotAt(" + no + ")", x.spotAt(no), -1);
             }
         }
@@ -320,6 +294,7 @@ public final class AskEdgesTest {
         c.due("81 cells", spotsOf(all, 9, 0, 255), 81);
         c.due("the last", all.spotAt(80), 80);
         c.due("none such", all.spotAt(81), -1);
+        c.due("the one OWL, though it leaves all 81", all.next(), 0);
     }
 
     private static void spotsOfTheLatest() {
@@ -371,6 +346,21 @@ public final class AskEdgesTest {
         OwlsLent lone = Checks.houseOf("bed a 0 0;owl o a 1;deaf o voice;");
         c.due("all", spotsOf(lone, 30, 0, 255), 36);
         c.due("the only one, though it tells nothing", lone.next(), 0);
+        // by Y as by X: the same house on its side
+        OwlsLent tall = Checks.houseOf("house 2 9;bed a 0 0;bed b 0 4;bed d 0 8;owl o a 1;owl p b 1;owl q d 1;");
+        c.due("all to the south", spotsOf(tall, 30, 0, 1), 15);
+        // p: (1,4) and (1,3) and (1,5) are as far off by X as by Y or more
+        c.due("p tells most of them apart", tall.next(), 1);
+        for (int deep = 1; deep <= 8; deep++) {
+            // a voice that is 1 loud at its cell: p by the bed at Y hears it here alone, o nowhere
+            OwlsLent one = Checks.houseOf("house 2 9;bed a 0 0;bed b 1 " + deep + ";owl o a 20;owl p b 1;");
+            c.due("all 18", spotsOf(one, 1, 0, 255), 18);
+            c.due("p leaves one less", one.next(), 1);
+            OwlsLent two = Checks.houseOf("house 2 9;bed a 0 0;bed b 1 " + deep + ";owl p b 1;owl o a 20;");
+            c.due("here at " + deep, spotsOf(two, 2, 0, 4), 1);
+            c.due("both leave it: the first", two.next(), 0);
+            c.due("its cell", two.spotAt(0), 9 * deep + 1);
+        }
         // an owl that is not on the tape counts, too; looking at nothing is a look
         OwlsLent deaf = Checks.houseOf("house 2 2;bed a 0 0;bed b 1 1;owl o a 1;owl p b 20;deaf o voice;");
         c.due("all four", spotsOf(deaf, 20, 0, 255), 4);
@@ -464,13 +454,13 @@ public final class AskEdgesTest {
         c.due("no owls", x.best(), 0);
         c.due("no such one", x.bestAt(0), -1);
         for (int owls = 1; owls <= 6; owls++) {
-            OwlsLent y = Checks.houseOf(beds(6) + owls(owls));
+            OwlsLent y = Checks.houseOf(Checks.beds(6) + Checks.owls(owls));
             c.due("ahead of any", y.bestAt(0), -1);
             c.due("nothing wanted, nothing heard", y.best(), 0);
             for (int o = 0; o < 8; o++) {
                 c.due("bestAt(" + o + ") of " + owls, y.bestAt(o), o < owls ? o : -1);
             }
-            for (int no : NO_SUCH) {
+            for (int no : Checks.NO_SUCH) {
                 c.due("bestAt(" + no + ")", y.bestAt(no), -1);
             }
         }
@@ -478,8 +468,9 @@ public final class AskEdgesTest {
 
     private static void bestLeastBed() {
         c.says("all OWLS to unlike BEDS; of like ones the first: OWL by OWL the least BED");
-        OwlsLent six = Checks.houseOf(beds(6) + "owl oa bf 1;owl ob be 1;owl oc bd 1;owl od bc 1;owl oe bb 1;owl of ba 1;"
-            + sounds(1) + "wants ba mouse;wants bb mouse;wants bc mouse;wants bd mouse;wants be mouse;wants bf mouse;"
+        OwlsLent six = Checks.houseOf(Checks.beds(6) + "owl oa bf 1;owl ob be 1;owl oc bd 1;owl od bc 1;"
+            + "owl oe bb 1;owl of ba 1;"
+            + Checks.sounds(1) + "wants ba mouse;wants bb mouse;wants bc mouse;wants bd mouse;wants be mouse;wants bf mouse;"
             + "shut 1 23;");
         c.due("six owls, an hour each", six.best(), 6);
         for (int o = 0; o < 6; o++) {
@@ -487,28 +478,30 @@ public final class AskEdgesTest {
         }
         c.due("they sit as they sat", six.owl(0, 0), 5);
         // o hears s (9 loud at ba) up to bb, p everywhere: both by wanted beds is best
-        OwlsLent x = Checks.houseOf(beds(4) + "owl o bd 8;owl p bc 1;" + sounds(1)
+        OwlsLent x = Checks.houseOf(Checks.beds(4) + "owl o bd 8;owl p bc 1;" + Checks.sounds(1)
             + "wants ba mouse;wants bb mouse;wants bd mouse;shut 1 23;");
         c.due("two owls, an hour each", x.best(), 2);
         c.due("o by the least", x.bestAt(0), 0);
         c.due("p by the least that is left", x.bestAt(1), 1);
-        OwlsLent y = Checks.houseOf(beds(3) + "owl p bc 1;owl o bb 9;" + sounds(1) + "wants ba mouse;wants bb mouse;shut 1 23;");
+        OwlsLent y = Checks.houseOf(Checks.beds(3) + "owl p bc 1;owl o bb 9;" + Checks.sounds(1)
+            + "wants ba mouse;wants bb mouse;shut 1 23;");
         c.due("p leaves ba to o, that hears it there alone", y.best(), 2);
         c.due("p", y.bestAt(0), 1);
         c.due("o", y.bestAt(1), 0);
-        OwlsLent z = Checks.houseOf(beds(3) + owls(1) + sounds(1) + "wants bc mouse;wants ba bell;shut 1 23;");
+        OwlsLent z = Checks.houseOf(Checks.beds(3) + Checks.owls(1) + Checks.sounds(1) + "wants bc mouse;"
+            + "wants ba bell;shut 1 23;");
         c.due("by the one that wants it", z.best(), 1);
         c.due("far from its own", z.bestAt(0), 2);
-        OwlsLent wantsNothing = Checks.houseOf(beds(2) + owls(2) + sounds(1));
+        OwlsLent wantsNothing = Checks.houseOf(Checks.beds(2) + Checks.owls(2) + Checks.sounds(1));
         c.due("no bed wants a kind", wantsNothing.best(), 0);
     }
 
     private static void bestHours() {
         c.says("in the 24 HOURS from now on (SOUNDS as they are now, no SHOUT; HOURS above 399, too)");
-        String house = beds(1) + owls(1) + "sound s voice 0 0 9 3 8;wants ba voice;";
+        String house = Checks.beds(1) + Checks.owls(1) + "sound s voice 0 0 9 3 8;wants ba voice;";
         // on from 3 to 8, shut from 6: three hours of each day
         for (int hour : new int[] {0, 1, 3, 4, 5, 6, 9, 23, 24, 100, 376, 377, 399, 400}) {
-            OwlsLent x = at(house, hour);
+            OwlsLent x = Checks.houseAt(house, hour);
             c.due("best() at " + hour, x.best(), 3);
             x.shout(0, 0, 30);
             c.due("no shout at " + hour, x.best(), 3);
@@ -518,19 +511,21 @@ public final class AskEdgesTest {
             c.due("let at " + hour, x.best(), 3);
             c.due("the hour stays", x.now(0), hour);
         }
-        OwlsLent all = Checks.houseOf(beds(1) + owls(1) + "sound s voice 0 0 9 0 23;wants ba voice;shut 5 5;");
+        OwlsLent all = Checks.houseOf(Checks.beds(1) + Checks.owls(1) + "sound s voice 0 0 9 0 23;wants ba voice;shut 5 5;");
         c.due("all hours but one", all.best(), 23);
-        OwlsLent drowned = Checks.houseOf(beds(1) + owls(1) + "sound s voice 0 0 9 0 23;sound t bell 0 0 10 0 3;"
+        OwlsLent drowned = Checks.houseOf(Checks.beds(1) + Checks.owls(1) + "sound s voice 0 0 9 0 23;"
+            + "sound t bell 0 0 10 0 3;"
             + "wants ba voice;shut 5 5;");
         c.due("it looks at the bell in four of them", drowned.best(), 19);
-        OwlsLent none = Checks.houseOf(beds(1) + owls(1) + "wants ba voice;");
+        OwlsLent none = Checks.houseOf(Checks.beds(1) + Checks.owls(1) + "wants ba voice;");
         none.shout(0, 0, 30);
         c.due("a shout alone is nothing", none.best(), 0);
     }
 
     private static void bestOfTheLatest() {
         c.says("The BED of an OWL by the latest best()");
-        OwlsLent x = Checks.houseOf(beds(3) + owls(2) + "sound s mouse 0 0 9 0 0;sound t bell 0 0 8 0 0;wants bc mouse;"
+        OwlsLent x = Checks.houseOf(Checks.beds(3) + Checks.owls(2) + "sound s mouse 0 0 9 0 0;"
+            + "sound t bell 0 0 8 0 0;wants bc mouse;"
             + "wants bb bell;");
         c.due("best()", x.best(), 1);
         c.due("the first by ba", x.bestAt(0), 0);
@@ -539,13 +534,13 @@ public final class AskEdgesTest {
         c.due("as it was told", x.bestAt(1), 2);
         c.due("best() once more", x.best(), 1);
         c.due("the second by bb", x.bestAt(1), 1);
-        Checks.put(x, beds(3) + owls(3));
+        Checks.put(x, Checks.beds(3) + Checks.owls(3));
         x.house();
         c.due("what was told stays", x.bestAt(1), 1);
         c.due("there was no third", x.bestAt(2), -1);
         x.best();
         c.due("there is one now", x.bestAt(2), 2);
-        Checks.put(x, beds(1) + owls(1));
+        Checks.put(x, Checks.beds(1) + Checks.owls(1));
         x.house();
         x.best();
         c.due("one", x.bestAt(0), 0);
@@ -561,7 +556,7 @@ public final class AskEdgesTest {
 
     private static void codeNotAsTold() {
         c.says("SIDES or 4; 1 to 8 of them; NONE: not as told, no such one");
-        OwlsLent x = Checks.houseOf(beds(2) + owls(1) + sounds(1));
+        OwlsLent x = Checks.houseOf(Checks.beds(2) + Checks.owls(1) + Checks.sounds(1));
         for (int n = 0; n <= 20; n++) {
             int[] tape = new int[n];
             java.util.Arrays.fill(tape, 4);
@@ -576,11 +571,11 @@ public final class AskEdgesTest {
                 side <= 4 ? -2 : -1);
         }
         for (int owls = 0; owls <= 6; owls++) {
-            OwlsLent y = Checks.houseOf(beds(6) + owls(owls) + sounds(1));
+            OwlsLent y = Checks.houseOf(Checks.beds(6) + Checks.owls(owls) + Checks.sounds(1));
             for (int o = 0; o < 8; o++) {
                 c.due("code(" + o + ") of " + owls, codeOf(y, o, o == 0 ? 4 : 2), o < owls ? 1 : -1);
             }
-            for (int no : NO_SUCH) {
+            for (int no : Checks.NO_SUCH) {
                 c.due("code(" + no + ")", codeOf(y, no, 4), -1);
             }
         }
@@ -605,7 +600,8 @@ public final class AskEdgesTest {
 
     private static void codeLeastSound() {
         c.says("for each the least SOUND that, if it alone was ON now (no OWL SHUT), the OWL would LOOK at on that SIDE");
-        OwlsLent x = Checks.houseOf("bed a 1 1;owl o a 5;bad o north;deaf o road;sound sa bell 2 1 5 0 0;sound sb road 2 1 9 0 0;"
+        OwlsLent x = Checks.houseOf("bed a 1 1;owl o a 5;bad o north;deaf o road;sound sa bell 2 1 5 0 0;"
+            + "sound sb road 2 1 9 0 0;"
             + "sound sc bell 2 1 6 5 5;sound sd bell 2 1 7 0 0;sound se bell 1 0 9 0 0;sound sf bell 1 1 4 0 0;"
             + "sound sg bell 1 1 5 0 0;sound sh bell 1 5 9 0 0;shut 0 23;");
         c.due("east, south, here", codeOf(x, 0, 0, 1, 4), 3);
@@ -639,7 +635,7 @@ public final class AskEdgesTest {
             }
             codeOf(x, turn == 0 ? 1 : 0, turn == 1 ? new int[] {2, 2, 1} : turn == 2 ? new int[] {5} : new int[0]);
         }
-        for (int no : NO_SUCH) {
+        for (int no : Checks.NO_SUCH) {
             c.due("codeAt(" + no + ")", x.codeAt(no), -1);
         }
         codeOf(x, 0, 2);
@@ -654,7 +650,7 @@ public final class AskEdgesTest {
 
     private static void duelNoSuch() {
         c.says("DUEL for an OWL and a SIDE (0 to 4) in n (1 to 4) moves; NONE: no such ones");
-        OwlsLent x = Checks.houseOf(beds(2) + owls(1) + sounds(1));
+        OwlsLent x = Checks.houseOf(Checks.beds(2) + Checks.owls(1) + Checks.sounds(1));
         for (int n = 1; n <= 4; n++) {
             for (int side = 0; side <= 4; side++) {
                 c.due("duel(0, " + side + ", " + n + ")", x.duel(0, side, n), side == 4 && n == 1 ? 1 : 0);
@@ -665,7 +661,7 @@ public final class AskEdgesTest {
         c.due("duel(0, -1, 1)", x.duel(0, -1, 1), -1);
         c.due("duel(0, 4, 0)", x.duel(0, 4, 0), -1);
         c.due("duel(0, 4, 5)", x.duel(0, 4, 5), -1);
-        for (int no : NO_SUCH) {
+        for (int no : Checks.NO_SUCH) {
             c.due("duel(" + no + ", 4, 1)", x.duel(no, 4, 1), -1);
             c.due("duel(0, " + no + ", 1)", x.duel(0, no, 1), -1);
             c.due("duel(0, 4, " + no + ")", x.duel(0, 4, no), -1);
@@ -676,7 +672,7 @@ public final class AskEdgesTest {
         c.says("one side HUSHES a SOUND (not hushed) or none, then the other one, and so on");
         // like sounds here: the second side must hush them all
         for (int sounds = 1; sounds <= 4; sounds++) {
-            OwlsLent x = Checks.houseOf(beds(1) + owls(1) + sounds(sounds));
+            OwlsLent x = Checks.houseOf(Checks.beds(1) + Checks.owls(1) + Checks.sounds(sounds));
             for (int n = 1; n <= 4; n++) {
                 dueDuel(x, 4, n, sounds > n / 2 ? 1 : 0, -1);
             }
@@ -708,7 +704,8 @@ public final class AskEdgesTest {
 
     private static void duelFirstMove() {
         c.says("of like moves of the first side's first: none, then the least SOUND; NONE: none");
-        OwlsLent x = Checks.houseOf("bed a 1 1;owl o a 1;sound s bell 1 0 9 5 5;sound t bell 2 1 9 0 23;sound u bell 2 1 10 0 23;"
+        OwlsLent x = Checks.houseOf("bed a 1 1;owl o a 1;sound s bell 1 0 9 5 5;sound t bell 2 1 9 0 23;"
+            + "sound u bell 2 1 10 0 23;"
             + "sound v bell 0 1 8 0 23;");
         dueDuel(x, 0, 1, 1, -1);
         // to the west: both of the east must go
@@ -752,11 +749,11 @@ public final class AskEdgesTest {
 
     private static void worthNoSuch() {
         c.says("in the next n (1 to 60) HOURS; NONE: it has none, no such ones");
-        OwlsLent x = Checks.houseOf(beds(6) + owls(5) + sounds(1) + "shut 12 11;");
+        OwlsLent x = Checks.houseOf(Checks.beds(6) + Checks.owls(5) + Checks.sounds(1) + "shut 12 11;");
         for (int b = -1; b < 8; b++) {
             c.due("worth(" + b + ", 1), all hours shut", x.worth(b, 1), b >= 0 && b < 5 ? 0 : -1);
         }
-        OwlsLent y = Checks.houseOf(beds(6) + owls(5) + sounds(1) + "shut 23 23;");
+        OwlsLent y = Checks.houseOf(Checks.beds(6) + Checks.owls(5) + Checks.sounds(1) + "shut 23 23;");
         for (int n = 1; n <= 60; n++) {
             c.due("worth(0, " + n + ")", y.worth(0, n), n - (n >= 24 ? 1 : 0) - (n >= 48 ? 1 : 0));
         }
@@ -764,7 +761,7 @@ public final class AskEdgesTest {
             c.due("worth(0, " + no + ")", y.worth(0, no), -1);
             c.due("worth(5, " + no + ")", y.worth(5, no), -1);
         }
-        for (int no : NO_SUCH) {
+        for (int no : Checks.NO_SUCH) {
             c.due("worth(" + no + ", 1)", y.worth(no, 1), -1);
             c.due("worth(0, " + no + ")", y.worth(0, no), -1);
         }
@@ -776,9 +773,9 @@ public final class AskEdgesTest {
 
     private static void worthToTheEnd() {
         c.says("(to HOUR 400)");
-        String house = beds(1) + owls(1) + sounds(1) + "shut 0 0;";
+        String house = Checks.beds(1) + Checks.owls(1) + Checks.sounds(1) + "shut 0 0;";
         for (int hour : new int[] {340, 341, 398, 399, 400}) {
-            OwlsLent x = at(house, hour);
+            OwlsLent x = Checks.houseAt(house, hour);
             int due = 0;
             for (int h = hour; h < 400; h++) {
                 due += h % 24 == 0 ? 0 : 1;
@@ -795,19 +792,19 @@ public final class AskEdgesTest {
             OwlsLent x = Checks.houseOf("bed a 0 0;owl o a 1;sound s bell 0 1 " + loud + " 0 23;");
             c.due("less 1, so loud: " + loud, x.worth(0, 6), loud >= 6 ? 6 : 0);
         }
-        OwlsLent many = Checks.houseOf(beds(1) + owls(1) + sounds(8));
+        OwlsLent many = Checks.houseOf(Checks.beds(1) + Checks.owls(1) + Checks.sounds(8));
         c.due("one an hour, of eight", many.worth(0, 2), 2);
         many.shout(0, 0, 30);
         c.due("the shout in its hour", many.worth(0, 2), 2);
-        OwlsLent lone = Checks.houseOf(beds(1) + owls(1));
+        OwlsLent lone = Checks.houseOf(Checks.beds(1) + Checks.owls(1));
         lone.shout(0, 0, 5);
         c.due("the shout alone", lone.worth(0, 60), 1);
         lone.undo();
         lone.shout(0, 0, 4);
         c.due("too low a shout", lone.worth(0, 60), 0);
-        OwlsLent deaf = Checks.houseOf(beds(1) + owls(1) + sounds(1) + "deaf oa mouse;");
+        OwlsLent deaf = Checks.houseOf(Checks.beds(1) + Checks.owls(1) + Checks.sounds(1) + "deaf oa mouse;");
         c.due("it would miss as many with it", deaf.worth(0, 60), 0);
-        OwlsLent hushed = Checks.houseOf(beds(1) + owls(1) + sounds(1));
+        OwlsLent hushed = Checks.houseOf(Checks.beds(1) + Checks.owls(1) + Checks.sounds(1));
         hushed.hush(0);
         c.due("hushed for good", hushed.worth(0, 60), 0);
     }
@@ -826,11 +823,11 @@ public final class AskEdgesTest {
     private static void noteNoSuch() {
         c.says("NOTE of a BED: how many bytes; NONE: no such one");
         for (int beds = 0; beds <= 6; beds++) {
-            OwlsLent x = Checks.houseOf(beds(beds));
+            OwlsLent x = Checks.houseOf(Checks.beds(beds));
             for (int b = 0; b < 8; b++) {
                 c.due("note(" + b + ") of " + beds, x.note(b), b < beds ? 8 : -1);
             }
-            for (int no : NO_SUCH) {
+            for (int no : Checks.NO_SUCH) {
                 c.due("note(" + no + ")", x.note(no), -1);
             }
         }
@@ -841,9 +838,10 @@ public final class AskEdgesTest {
             + "' looks here' (4), or ' sleeps'");
         int[][] cells = {{2, 1}, {1, 2}, {0, 1}, {1, 0}, {1, 1}};
         for (int side = 0; side < 5; side++) {
-            OwlsLent x = Checks.houseOf("bed abcdefg 1 1;bed z 5 5;owl tuvwxyz abcdefg 1;sound s bell " + cells[side][0] + " "
+            OwlsLent x = Checks.houseOf("bed abcdefg 1 1;bed z 5 5;owl tuvwxyz abcdefg 1;sound s bell "
+                + cells[side][0] + " "
                 + cells[side][1] + " 9 0 23;");
-            dueNote(x, 0, "abcdefg tuvwxyz looks " + (side < 4 ? SIDES[side] : "here"));
+            dueNote(x, 0, "abcdefg tuvwxyz looks " + (side < 4 ? Checks.SIDES[side] : "here"));
             dueNote(x, 1, "z alone");
             x.hush(0);
             dueNote(x, 0, "abcdefg tuvwxyz sleeps");
@@ -870,7 +868,7 @@ public final class AskEdgesTest {
             c.due("byteAt(" + i + ") ahead of any", x.byteAt(i), -1);
         }
         dueNote(x, 0, "abcdefg tuvwxyz looks south");
-        for (int no : NO_SUCH) {
+        for (int no : Checks.NO_SUCH) {
             c.due("byteAt(" + no + ")", x.byteAt(no), -1);
         }
         c.due("no such bed", x.note(2), -1);
@@ -887,13 +885,13 @@ public final class AskEdgesTest {
     private static void oddsNoSuch() {
         c.says("Of n (1 to 30) seeds; NONE: no such ones");
         for (int beds = 0; beds <= 6; beds++) {
-            OwlsLent x = Checks.houseOf(beds(beds));
+            OwlsLent x = Checks.houseOf(Checks.beds(beds));
             x.shout(0, 0, 1);
             for (int b = 0; b < 8; b++) {
                 int odds = x.odds(b, 1, 7);
                 c.due("odds(" + b + ", 1, 7) of " + beds, b < beds ? odds >= 0 && odds <= 1 : odds == -1, true);
             }
-            for (int no : NO_SUCH) {
+            for (int no : Checks.NO_SUCH) {
                 c.due("odds(" + no + ", 1, 7)", x.odds(no, 1, 7), -1);
                 c.due("odds(0, " + no + ", 7)", x.odds(0, no, 7), -1);
             }
@@ -908,7 +906,7 @@ public final class AskEdgesTest {
         x.hours(20);
         x.hush(0);
         int missed = x.bed(1, 5);
-        for (int seed : new int[] {0, 5, -9, MAX, MAX - 3, MIN}) {
+        for (int seed : new int[] {0, 5, -9, Checks.MAX, Checks.MAX - 3, Checks.MIN}) {
             int due = 0;
             for (int n = 1; n <= 30; n++) {
                 x.drawn(12, seed + n - 1);
@@ -927,7 +925,7 @@ public final class AskEdgesTest {
         c.says("in 12 HOURS DRAWN from now on (400: all are over)");
         String house = "bed a 0 0;sound s mouse 0 0 5 0 23;";
         for (int hour : new int[] {388, 389, 399, 400}) {
-            OwlsLent x = at(house, hour);
+            OwlsLent x = Checks.houseAt(house, hour);
             x.hush(0);
             int missed = x.bed(0, 5);
             int due = 0;
@@ -941,7 +939,7 @@ public final class AskEdgesTest {
             }
             c.due("odds(0, 30, 0) at " + hour, x.odds(0, 30, 0), due);
         }
-        c.due("none is left to miss anything", at(house, 400).odds(0, 30, 1), 30);
+        c.due("none is left to miss anything", Checks.houseAt(house, 400).odds(0, 30, 1), 30);
     }
 
     private static void newHouse() {

@@ -2,8 +2,6 @@
 public final class BookEdgesTest {
     private static final String HOUSE = "house 4 3;bed a 0 0;bed b 3 2;bed e 3 0;owl o a 2;owl p b 2;"
         + "sound s mouse 0 0 6 0 23;sound t road 1 0 6 0 23;shut 6 17;";
-    private static final String[] RESERVED = ("house bed owl bad deaf sound wants shut mouse voice road bell east south "
-        + "west north lend hush let shout hour or and not blind told looks by hears knows missed number").split(" ");
     private static final Checks c = new Checks("BookEdgesTest");
 
     public static void main(String[] args) {
@@ -12,12 +10,14 @@ public final class BookEdgesTest {
         bookNumbers();
         fortyLines();
         bookBytes();
+        booksBehindOneWithAFault();
         livesAnother();
         wholeBooks();
         booksJudgedOnly();
         booksLived();
         whyWrong();
         shoutsInABook();
+        aBooksShout();
         hoursInABook();
         toldWhat();
         toldOfTheLatest();
@@ -30,6 +30,8 @@ public final class BookEdgesTest {
         sentenceStays();
         eachOne();
         signsAndNumbers();
+        joined();
+        longSentences();
         saidOfNone();
         faultOfTheLatest();
         c.end();
@@ -114,7 +116,7 @@ public final class BookEdgesTest {
         bookFault(1, "|s;");
         bookFault(1, "|hush1 s;");
         bookFault(1, "hush s;|@");
-        for (String word : RESERVED) {
+        for (String word : Checks.RESERVED) {
             if (!"lend hush let shout hour".contains(word) || word.equals("or")) {
                 bookFault(1, "|" + word + " s;");
             }
@@ -138,7 +140,7 @@ public final class BookEdgesTest {
             bookFault(1, line + "|abcdefgh;");
             bookFault(1, line + "|mouse;");
         }
-        for (String word : RESERVED) {
+        for (String word : Checks.RESERVED) {
             bookFault(1, "lend |" + word + " a;");
             bookFault(1, "lend o |" + word + ";");
             bookFault(1, "hush |" + word + ";");
@@ -197,7 +199,8 @@ public final class BookEdgesTest {
     }
 
     private static void bookBytes() {
-        c.says("a text of at most 400 bytes; the most bytes told, if there are more; TOKENS that begin ahead of it are read whole");
+        c.says("a text of at most 400 bytes; the most bytes told, if there are more;"
+            + " TOKENS that begin ahead of it are read whole");
         judge("hush s;" + " ".repeat(393), -1, 0);
         judge(" ".repeat(393) + "hush s;", -1, 0);
         judge(" ".repeat(400), -1, 0);
@@ -216,6 +219,32 @@ public final class BookEdgesTest {
         bookFault(3, "hush |q;" + " ".repeat(500));
         bookFault(4, "hour 1;".repeat(40) + " ".repeat(119) + "|hour 1;");
         bookFault(1, "hour 1;".repeat(40) + " ".repeat(120) + "|hour 1;");
+    }
+
+    private static void booksBehindOneWithAFault() {
+        c.says("The tape is a BOOK: nothing of an earlier one is left");
+        for (String fault : new String[] {"lend o q;", "lend q", "shout 0 0 31;", "shout 9", "hour 61;", "hush q",
+            "lend o e;@"}) {
+            OwlsLent x = Checks.houseOf(HOUSE);
+            Checks.put(x, fault);
+            c.due("a fault of '" + fault + "'", x.book(1) < -1, true);
+            judge(x, "hush s;let s;let s;hour 1;", 2, 21);
+            Checks.put(x, fault);
+            x.book(0);
+            judge(x, "shout 0 0 1;hour 1;shout 3 2 1;shout 0 0 1;", 3, 31);
+            Checks.put(x, fault);
+            x.book(0);
+            judge(x, "lend o e;lend p a;lend o b;lend p a;", 3, 1);
+            judge(x, "hour 60;", -1, 0);
+            judge(x, "", -1, 0);
+            c.due("no lines ahead", x.told(1), 0);
+        }
+        OwlsLent x = Checks.houseOf(HOUSE);
+        judge(x, "hour 1;".repeat(40), -1, 0);
+        judge(x, "let s;", 0, 21);
+        judge(x, "hour 2;", -1, 0);
+        c.due("one line", x.told(1), 1);
+        c.due("two hours", x.told(2), 2);
     }
 
     private static void livesAnother() {
@@ -337,6 +366,29 @@ public final class BookEdgesTest {
         judge(narrow, "shout 2 8 30;", 0, 39);
     }
 
+    private static void aBooksShout() {
+        c.says("'shout' X Y LOUD: somebody SHOUTS in that cell, so LOUD");
+        for (int at = 0; at < 9; at++) {
+            OwlsLent x = Checks.houseOf("house 9 9;bed a 0 0;bed b 8 8;owl o a 20;");
+            Checks.put(x, "shout " + at + " 2 " + (22 + at) + ";");
+            c.due("as loud as told from on, by X", x.book(1), -1);
+            c.due("o looks at it", x.owl(0, 5), 0);
+            c.due("to the side", x.owl(0, 4), at >= 2 ? 0 : 1);
+            x.undo();
+            Checks.put(x, "shout 1 " + at + " " + (20 + at) + ";");
+            c.due("less loud, by Y", x.book(1), -1);
+            c.due("o does not hear it", x.owl(0, 5), -1);
+            x.undo();
+            Checks.put(x, "shout " + at + " 8 " + (12 - at) + ";hour 1;");
+            c.due("at b", x.book(1), -1);
+            c.due("missed there, if it is 5 loud", x.bed(1, 5), 12 - at - (8 - at) >= 5 ? 1 : 0);
+            x.undo();
+            Checks.put(x, "shout 8 " + at + " " + (13 - at) + ";hour 1;");
+            c.due("at b", x.book(1), -1);
+            c.due("missed there", x.bed(1, 5), 1);
+        }
+    }
+
     private static void hoursInABook() {
         c.says("41: fewer HOURS are left");
         OwlsLent x = Checks.houseOf(HOUSE);
@@ -363,7 +415,8 @@ public final class BookEdgesTest {
     }
 
     private static void toldWhat() {
-        c.says("1 how many LINES are ahead of the one that is WRONG (all, if none is), 2 the HOUR then, 3 OWLS that LOOK then");
+        c.says("1 how many LINES are ahead of the one that is WRONG (all, if none is), 2 the HOUR then, 3 OWLS "
+            + "that LOOK then");
         OwlsLent x = Checks.houseOf(HOUSE);
         // o looks at s, p at t, 2 loud there
         Checks.put(x, "");
@@ -458,7 +511,7 @@ public final class BookEdgesTest {
         sentenceFault(1, "hears |east");
         sentenceFault(1, "hears |number");
         sentenceFault(1, "hears |1");
-        for (String word : RESERVED) {
+        for (String word : Checks.RESERVED) {
             if (!" not blind told looks by hears knows missed number ".contains(" " + word + " ")) {
                 sentenceFault(1, "|" + word);
                 sentenceFault(1, "not |" + word);
@@ -493,7 +546,7 @@ public final class BookEdgesTest {
         sentenceFault(1, "by|");
         sentenceFault(1, "by |1");
         sentenceFault(1, "by |(o)");
-        for (String word : RESERVED) {
+        for (String word : Checks.RESERVED) {
             sentenceFault(1, "by |" + word);
         }
     }
@@ -527,6 +580,8 @@ public final class BookEdgesTest {
         sentenceFault(4, "told" + " or told".repeat(19) + " or |not told");
         sentenceFault(4, "told" + " or told".repeat(19) + " and |(told)");
         sentenceFault(4, "told" + " or told".repeat(19) + " and |knows");
+        sentenceFault(4, "told" + " and told".repeat(19) + " and |told");
+        sentenceFault(4, "told" + " and told".repeat(19) + " or |told");
         sentenceFault(4, "told" + " or told".repeat(18) + " or not |told");
         sentenceFault(4, "told" + " or told".repeat(18) + " or (|told)");
         sentenceFault(4, "(told" + " or told".repeat(18) + " or |told)");
@@ -561,7 +616,8 @@ public final class BookEdgesTest {
     }
 
     private static void sentenceBytes() {
-        c.says("a text of at most 200 bytes; the most bytes told, if there are more; TOKENS that begin ahead of it are read whole");
+        c.says("a text of at most 200 bytes; the most bytes told, if there are more;"
+            + " TOKENS that begin ahead of it are read whole");
         ones(1, "told" + " ".repeat(196));
         ones(1, " ".repeat(196) + "told");
         sentenceFault(1, "told" + " ".repeat(196) + "| ");
@@ -662,6 +718,48 @@ public final class BookEdgesTest {
         c.dueSaid(x, "missed > 3");
     }
 
+    private static void joined() {
+        c.says("COND: ALL { 'or' ALL }. ALL: ONE { 'and' ONE }. ONE: 'not' ONE | ( COND )");
+        OwlsLent x = Checks.houseOf(Checks.beds(6));
+        c.dueSaid(x, "number=0 or number=3", 0, 3);
+        c.dueSaid(x, "number=0 or number=3 or number=5", 0, 3, 5);
+        c.dueSaid(x, "number>0 and number<3", 1, 2);
+        c.dueSaid(x, "number>0 and number<5 and not number=3", 1, 2, 4);
+        c.dueSaid(x, "number=0 or number>2 and number<5", 0, 3, 4);
+        c.dueSaid(x, "number>2 and number<5 or number=0", 0, 3, 4);
+        c.dueSaid(x, "(number=0 or number>2) and number<5", 0, 3, 4);
+        c.dueSaid(x, "(number=5 or number<2) and number<5", 0, 1);
+        c.dueSaid(x, "number=5 or number<2 and number<5", 0, 1, 5);
+        c.dueSaid(x, "number<5 and (number=5 or number<2)", 0, 1);
+        c.dueSaid(x, "not number=0 and number<2", 1);
+        c.dueSaid(x, "not number=0 or number<2", 0, 1, 2, 3, 4, 5);
+        c.dueSaid(x, "not (number=0 or number>2)", 1, 2);
+        c.dueSaid(x, "not (number<3 and number>0)", 0, 3, 4, 5);
+        c.dueSaid(x, "not not number=4", 4);
+        c.dueSaid(x, "not not not number=4", 0, 1, 2, 3, 5);
+        c.dueSaid(x, "number=0 and number=1 or number=2 and number=2 or number=3 and number=4", 2);
+        c.dueSaid(x, "((number=1)or((number=2)))", 1, 2);
+    }
+
+    private static void longSentences() {
+        c.says("20 ONES, 8 within one another: such sentences are said, too");
+        OwlsLent x = Checks.houseOf(Checks.beds(6));
+        c.dueSaid(x, "told" + " or told".repeat(17) + " or number=1 or number=4", 1, 4);
+        c.dueSaid(x, "number=2" + " or told".repeat(18) + " or number=5", 2, 5);
+        OwlsLent y = Checks.houseOf("bed a 0 0;bed b 1 0;bed d 2 0;bed e 3 0;owl o a 1;owl p b 1;owl q d 1;owl r e 1;"
+            + "sound s mouse 0 0 9 0 23;");
+        c.dueSaid(y, "told" + " and told".repeat(17) + " and number>0 and number<3", 1, 2);
+        c.dueSaid(y, "number>1" + " and told".repeat(18) + " and number<3", 2);
+        c.dueSaid(x, "told and blind" + " or told and blind".repeat(8) + " or number=3 and blind", 3);
+        c.dueSaid(x, "told or (told or (told or (told or (told or (told or (number=5 or number=0))))))", 0, 5);
+        c.dueSaid(x, "blind and (told or blind and (told or blind and (told or blind and (told or blind and "
+            + "(number=1)))))", 1);
+        c.dueSaid(x, "told or blind and (told or blind and (told or blind and (told or blind and (told or blind and "
+            + "(number=3 or told)))))", 3);
+        c.dueSaid(x, "not ".repeat(7) + "number=2 and not number=5", 0, 1, 3, 4);
+        c.dueSaid(x, "(".repeat(7) + "number<2" + ")".repeat(7) + "and" + "(".repeat(7) + "number>0" + ")".repeat(7), 1);
+    }
+
     private static void saidOfNone() {
         c.says("how many (k NONE), or the k-th. NONE: there is no SENTENCE, none such");
         OwlsLent x = new OwlsLent();
@@ -678,7 +776,7 @@ public final class BookEdgesTest {
             c.due("said(" + k + ")", y.said(k), -1);
         }
         c.dueSaid(y, "number > 9");
-        OwlsLent six = Checks.houseOf("bed a 0 0;bed b 1 0;bed d 2 0;bed e 3 0;bed f 4 0;bed g 5 0;");
+        OwlsLent six = Checks.houseOf(Checks.beds(6));
         c.dueSaid(six, "blind", 0, 1, 2, 3, 4, 5);
         c.dueSaid(six, "not number = 0 and not number = 5", 1, 2, 3, 4);
     }

@@ -6,6 +6,16 @@ final class Checks {
         long run();
     }
 
+    static final int MAX = Integer.MAX_VALUE;
+    static final int MIN = Integer.MIN_VALUE;
+    /** Numbers that no bed, owl, sound, cell or place has. */
+    static final int[] NO_SUCH = {-1, -2, MIN, MIN + 1, MAX, MAX - 1, 256, 1 << 16};
+    static final String[] KINDS = {"mouse", "voice", "road", "bell"};
+    static final String[] SIDES = {"east", "south", "west", "north"};
+    /** Words that are no names. */
+    static final String[] RESERVED = ("house bed owl bad deaf sound wants shut mouse voice road bell east south west north "
+        + "lend hush let shout hour or and not blind told looks by hears knows missed number").split(" ");
+
     private final String title;
     private String words = "";
     private int checked = 0;
@@ -72,6 +82,44 @@ final class Checks {
             throw new IllegalStateException("a test's house has a fault: " + text);
         }
         return x;
+    }
+
+    static OwlsLent houseAt(String text, int hour) {
+        OwlsLent x = houseOf(text);
+        while (x.now(0) < hour && x.hours(Math.min(60, hour - x.now(0))) > 0) {
+            continue;
+        }
+        if (x.now(0) != hour) {
+            throw new IllegalStateException("a test's hour is not reached: " + hour);
+        }
+        return x;
+    }
+
+    /** Beds ba, bb, .. in a row from the cell 0 0 to the east. */
+    static String beds(int count) {
+        StringBuilder s = new StringBuilder();
+        for (int i = 0; i < count; i++) {
+            s.append("bed b").append((char) ('a' + i)).append(' ').append(i).append(" 0;");
+        }
+        return s.toString();
+    }
+
+    /** Owls oa, ob, .. by the beds ba, bb, .., that hear from 1 on. */
+    static String owls(int count) {
+        StringBuilder s = new StringBuilder();
+        for (int i = 0; i < count; i++) {
+            s.append("owl o").append((char) ('a' + i)).append(" b").append((char) ('a' + i)).append(" 1;");
+        }
+        return s.toString();
+    }
+
+    /** Sounds sa, sb, .. in the cell 0 0, 9 loud at all hours. */
+    static String sounds(int count) {
+        StringBuilder s = new StringBuilder();
+        for (int i = 0; i < count; i++) {
+            s.append("sound s").append((char) ('a' + i)).append(" mouse 0 0 9 0 23;");
+        }
+        return s.toString();
     }
 
     void dueHouse(String text, int lines, int fault) {

@@ -1,7 +1,5 @@
 /** Each edge that the document names of TOKENS and of the text of a HOUSE, by its words; with promises 4 and 5. */
 public final class HouseEdgesTest {
-    private static final String[] RESERVED = ("house bed owl bad deaf sound wants shut mouse voice road bell east south "
-        + "west north lend hush let shout hour or and not blind told looks by hears knows missed number").split(" ");
     private static final String BEDS = "bed a 0 0;bed b 1 0;";
     private static final String OWLS = BEDS + "owl o a 1;owl p b 1;";
     private static final String SOUND = "sound s mouse 0 0 1 0 0;";
@@ -286,9 +284,8 @@ public final class HouseEdgesTest {
 
     private static void badLine() {
         c.says("'bad' OWL SIDE (each OWL once); SIDE: 'east', 'south', 'west', 'north'; numbered from 0");
-        String[] sides = {"east", "south", "west", "north"};
         for (int side = 0; side < 4; side++) {
-            OwlsLent x = stands(5, OWLS + "bad p " + sides[side] + ";");
+            OwlsLent x = stands(5, OWLS + "bad p " + Checks.SIDES[side] + ";");
             c.due("the bad side of p", x.owl(1, 2), side);
             c.due("o has none", x.owl(0, 2), -1);
         }
@@ -313,13 +310,12 @@ public final class HouseEdgesTest {
 
     private static void deafLine() {
         c.says("'deaf' OWL KIND (each two once); 'deaf' of two told again (at the KIND)");
-        String[] kinds = {"mouse", "voice", "road", "bell"};
         for (int kind = 0; kind < 4; kind++) {
-            OwlsLent x = stands(5, OWLS + "deaf p " + kinds[kind] + ";");
+            OwlsLent x = stands(5, OWLS + "deaf p " + Checks.KINDS[kind] + ";");
             c.due("p is deaf to it", x.owl(1, 3), 1 << kind);
             c.due("o is not", x.owl(0, 3), 0);
-            fault(3, OWLS + "deaf p " + kinds[kind] + ";deaf p |" + kinds[kind] + ";");
-            stands(6, OWLS + "deaf p " + kinds[kind] + ";deaf o " + kinds[kind] + ";");
+            fault(3, OWLS + "deaf p " + Checks.KINDS[kind] + ";deaf p |" + Checks.KINDS[kind] + ";");
+            stands(6, OWLS + "deaf p " + Checks.KINDS[kind] + ";deaf o " + Checks.KINDS[kind] + ";");
         }
         OwlsLent x = stands(8, OWLS + "deaf p bell;deaf p mouse;deaf p voice;deaf p road;");
         c.due("deaf to all", x.owl(1, 3), 15);
@@ -333,9 +329,8 @@ public final class HouseEdgesTest {
 
     private static void soundLine() {
         c.says("'sound' NAME KIND X Y LOUD FROM TILL (1 to 30; 0 to 23 each)");
-        String[] kinds = {"mouse", "voice", "road", "bell"};
         for (int kind = 0; kind < 4; kind++) {
-            c.due("kind", stands(1, "sound s " + kinds[kind] + " 0 0 1 0 0;").sound(0, 0), kind);
+            c.due("kind", stands(1, "sound s " + Checks.KINDS[kind] + " 0 0 1 0 0;").sound(0, 0), kind);
         }
         fault(1, "sound s |shut 0 0 1 0 0;");
         fault(1, "sound s |east 0 0 1 0 0;");
@@ -376,9 +371,8 @@ public final class HouseEdgesTest {
 
     private static void wantsLine() {
         c.says("'wants' BED KIND (each BED once)");
-        String[] kinds = {"mouse", "voice", "road", "bell"};
         for (int kind = 0; kind < 4; kind++) {
-            OwlsLent x = stands(3, BEDS + "wants b " + kinds[kind] + ";");
+            OwlsLent x = stands(3, BEDS + "wants b " + Checks.KINDS[kind] + ";");
             c.due("b wants it", x.bed(1, 3), kind);
             c.due("a wants nothing", x.bed(0, 3), -1);
         }
@@ -424,7 +418,7 @@ public final class HouseEdgesTest {
 
     private static void names() {
         c.says("NAME: a WORD, none of those told here, in a BOOK or a SENTENCE");
-        for (String word : RESERVED) {
+        for (String word : Checks.RESERVED) {
             fault(1, "bed |" + word + " 0 0;");
             fault(1, BEDS + "owl |" + word + " a 1;");
             fault(1, "sound |" + word + " mouse 0 0 1 0 0;");
@@ -433,7 +427,8 @@ public final class HouseEdgesTest {
             fault(1, OWLS + "deaf |" + word + " mouse;");
             fault(1, BEDS + "wants |" + word + " mouse;");
         }
-        for (String word : new String[] {"alone", "here", "sleeps", "none", "wide", "high", "x", "hous", "houses", "be", "beds"}) {
+        for (String word : new String[] {"alone", "here", "sleeps", "none", "wide", "high", "x", "hous", "houses",
+            "be", "beds"}) {
             stands(1, "bed " + word + " 0 0;");
             stands(1, "sound " + word + " mouse 0 0 1 0 0;");
             stands(2, "bed " + word + " 0 0;wants " + word + " bell;");
@@ -459,24 +454,16 @@ public final class HouseEdgesTest {
 
     private static void asManyAsThereMayBe() {
         c.says("6 BEDS, 6 OWLS, 8 SOUNDS at most; 4 one more than there may be of a sort (at the LINE's first WORD)");
-        StringBuilder beds = new StringBuilder();
-        StringBuilder owls = new StringBuilder();
-        StringBuilder sounds = new StringBuilder();
-        for (int i = 0; i < 6; i++) {
-            beds.append("bed b").append((char) ('a' + i)).append(' ').append(i).append(" 0;");
-            owls.append("owl o").append((char) ('a' + i)).append(" b").append((char) ('a' + i)).append(" 1;");
-        }
-        for (int i = 0; i < 8; i++) {
-            sounds.append("sound s").append((char) ('a' + i)).append(" mouse 0 0 1 0 0;");
-        }
-        String all = beds.toString() + owls + sounds;
+        String beds = Checks.beds(6);
+        String sounds = Checks.sounds(8);
+        String all = beds + Checks.owls(6) + sounds;
         OwlsLent x = stands(20, all);
         c.due("beds", x.count(0), 6);
         c.due("owls", x.count(1), 6);
         c.due("sounds", x.count(2), 8);
         c.due("the last bed", x.bed(5, 0), 5);
         c.due("the last owl", x.owl(5, 0), 5);
-        c.due("the last sound", x.sound(7, 3), 1);
+        c.due("the last sound", x.sound(7, 3), 9);
         for (String more : new String[] {"|bed g 0 1;", "|bed ba 0 0;", "|bed", "|bed;", "|bed 1", "|owl q ba 1;", "|owl",
             "|owl;", "|sound z mouse 0 0 1 0 0;", "|sound", "|sound sa;"}) {
             fault(4, all + more);
@@ -484,7 +471,7 @@ public final class HouseEdgesTest {
         fault(4, beds + "|bed g 0 1;");
         fault(4, sounds + "|sound z mouse 0 0 1 0 0;");
         fault(1, beds + "|b;");
-        stands(15, beds.toString() + sounds + "shut 1 2;");
+        stands(15, beds + sounds + "shut 1 2;");
         stands(28, all + "shut 1 2;wants ba bell;wants bf road;bad oa east;bad of west;deaf oa bell;deaf of bell;"
             + "deaf of voice;");
     }
@@ -567,15 +554,11 @@ public final class HouseEdgesTest {
         fault(1, "bed a" + " ".repeat(894) + "|1000 0;");
         fault(1, "bed a" + " ".repeat(894) + "0|05 0;");
         fault(3, "bed a 1 0;bed b 1" + " ".repeat(882) + "|000;");
-        fault(4, sixBeds() + " ".repeat(899 - sixBeds().length()) + "|bed g 0 1;");
-        fault(1, sixBeds() + " ".repeat(900 - sixBeds().length()) + "|bed g 0 1;");
+        fault(4, Checks.beds(6) + " ".repeat(899 - Checks.beds(6).length()) + "|bed g 0 1;");
+        fault(1, Checks.beds(6) + " ".repeat(900 - Checks.beds(6).length()) + "|bed g 0 1;");
         fault(3, "bed a 0 0;" + " ".repeat(889) + "|house 4 4;");
         fault(1, "bed a 0 0" + " ".repeat(890) + "|bed b 1 0;");
         fault(1, "bed a 0 0" + " ".repeat(890) + ";|bed b 1 0;");
-    }
-
-    private static String sixBeds() {
-        return "bed a 0 0;bed b 1 0;bed d 2 0;bed e 3 0;bed f 4 0;bed h 5 0;";
     }
 
     private static void whatAFaultLeaves() {

@@ -1,7 +1,5 @@
 /** Promises 1 to 9 and 43: the tape, the text of a house, and what is so. */
 public final class HouseTest {
-    private static final String[] RESERVED = ("house bed owl bad deaf sound wants shut mouse voice road bell east south "
-        + "west north lend hush let shout hour or and not blind told looks by hears knows missed number").split(" ");
     private static final String BED = "bed a 0 0;";
     private static final String OWL = "owl o a 1;";
     private static final String SOUND = "sound s mouse 0 0 1 0 0;";
@@ -113,7 +111,7 @@ public final class HouseTest {
         c.dueHouse("abc", -1, 1);
         c.dueHouse("12", -1, 1);
         c.dueHouse("hour 1;", -1, 1);
-        for (String word : RESERVED) {
+        for (String word : Checks.RESERVED) {
             c.dueHouse("bed " + word + " 0 0;", -5, 1);
             c.dueHouse("wants " + word + " bell;", -7, 1);
         }

@@ -1,8 +1,5 @@
-/** Each edge that the document names of the tape, of what is so, and of its part 2, by its words: promises 1 to 3, 6 to 9, 43. */
+/** Each edge that the document names of the tape, of what is so and of its part 2: promises 1 to 3, 6 to 9, 19, 43. */
 public final class StateEdgesTest {
-    private static final int MAX = Integer.MAX_VALUE;
-    private static final int MIN = Integer.MIN_VALUE;
-    private static final int[] NO_SUCH = {-1, -2, MIN, MIN + 1, MAX, MAX - 1, 256, 1 << 16};
     private static final Checks c = new Checks("StateEdgesTest");
 
     public static void main(String[] args) {
@@ -10,6 +7,7 @@ public final class StateEdgesTest {
         tapeFull();
         bytesHighestFirst();
         tapeEnds();
+        whatIsCutOff();
         counts();
         bedsNoSuch();
         bedsWithoutOwlOrWish();
@@ -33,31 +31,9 @@ public final class StateEdgesTest {
         knowsAndMisses();
         theLastHour();
         newHouse();
+        newHouseLeavesNothing();
+        theLastOnes();
         c.end();
-    }
-
-    private static String sounds(int count) {
-        StringBuilder s = new StringBuilder();
-        for (int i = 0; i < count; i++) {
-            s.append("sound s").append((char) ('a' + i)).append(" mouse 0 0 9 0 23;");
-        }
-        return s.toString();
-    }
-
-    private static String bedsAndOwls(int count) {
-        StringBuilder s = new StringBuilder();
-        for (int i = 0; i < count; i++) {
-            s.append("bed b").append((char) ('a' + i)).append(' ').append(i).append(" 0;");
-            s.append("owl o").append((char) ('a' + i)).append(" b").append((char) ('a' + i)).append(" 1;");
-        }
-        return s.toString();
-    }
-
-    private static void goTo(OwlsLent x, int hour) {
-        while (x.now(0) < hour) {
-            x.hours(Math.min(60, hour - x.now(0)));
-        }
-        c.due("the hour", x.now(0), hour);
     }
 
     private static void newObject() {
@@ -82,6 +58,10 @@ public final class StateEdgesTest {
         c.due("its first shout is number 0", x.now(1), 1);
         OwlsLent another = new OwlsLent();
         c.due("objects have nothing of one another", another.now(7), 0);
+        for (int hour = 0; hour < 48; hour++) {
+            c.due("shut 6 17 without, at " + hour, another.now(4), hour % 24 >= 6 && hour % 24 <= 17 ? 1 : 0);
+            another.hours(1);
+        }
     }
 
     private static void tapeFull() {
@@ -145,7 +125,7 @@ public final class StateEdgesTest {
     private static void tapeEnds() {
         c.says("true; false, if it has not so many, or n is below 0");
         OwlsLent x = new OwlsLent();
-        for (int n : NO_SUCH) {
+        for (int n : Checks.NO_SUCH) {
             c.due("end(" + n + ") of nothing", x.end(n), false);
         }
         c.due("end(0) of nothing", x.end(0), true);
@@ -163,15 +143,68 @@ public final class StateEdgesTest {
         c.due("end(1) of none", x.end(1), false);
     }
 
+    /** The bytes told, and behind them, cut off again, such as would make it another tape. */
+    private static void cut(OwlsLent x, String text, int behind) {
+        x.end(0);
+        for (int i = 0; i < 47; i++) {
+            int four = behind << 24 | behind << 16 | behind << 8 | behind;
+            x.feed(four, four, four, four, four);
+        }
+        x.end(0);
+        int length = text.length();
+        for (int at = 0; at < length; at += 20) {
+            int[] five = new int[5];
+            for (int i = 0; i < 20; i++) {
+                int b = at + i < length ? text.charAt(at + i) : behind;
+                five[i / 4] |= b << 24 - 8 * (i % 4);
+            }
+            x.feed(five[0], five[1], five[2], five[3], five[4]);
+        }
+        c.due("end(" + length + ")", x.end(length), true);
+    }
+
+    private static void whatIsCutOff() {
+        c.says("The tape has its first n bytes alone");
+        String house = Checks.beds(2) + Checks.owls(2) + Checks.sounds(2);
+        for (int behind : new int[] {0, 1, 4, 5, 32, '0', '9', ';', 'a', 'z', '@', 255}) {
+            OwlsLent x = Checks.houseOf(house);
+            cut(x, new String(new char[] {9, 0, 4}), behind);
+            c.due("spots(), behind them " + behind, x.spots(), 1);
+            cut(x, new String(new char[] {9, 0, 4, 1, 2}), behind);
+            c.due("spots() of two, behind them " + behind, x.spots(), 1);
+            cut(x, new String(new char[] {9, 4, 1}), behind);
+            c.due("keen(), behind them " + behind, x.keen(), 5);
+            cut(x, new String(new char[] {4}), behind);
+            c.due("code(), behind them " + behind, x.code(0), 1);
+            cut(x, new String(new char[] {4, 4, 4, 4, 4, 4, 4}), behind);
+            c.due("code() of seven, behind them " + behind, x.code(0), 7);
+            cut(x, "hush sa;hour 1;", behind);
+            c.due("book(), behind it " + behind, x.book(0), -1);
+            cut(x, "number=1", behind);
+            c.due("sentence(), behind it " + behind, x.sentence(), 1);
+            c.due("said() of it", x.said(0), 1);
+            cut(x, "hush sa", behind);
+            c.due("a book's end, behind it " + behind, x.book(0), -9);
+            cut(x, "by o", behind);
+            c.due("a sentence's end, behind it " + behind, x.sentence(), -4);
+            cut(x, "", behind);
+            c.due("keen() of none, behind it " + behind, x.keen(), -1);
+            cut(x, "bed a 0 0;shut 1 2", behind);
+            c.due("a house's end, behind it " + behind, x.house(), -19);
+            cut(x, "bed a 0 0;shut 1 2;", behind);
+            c.due("house(), behind it " + behind, x.house(), 2);
+        }
+    }
+
     private static void counts() {
         c.says("0 BEDS, 1 OWLS, 2 SOUNDS, 3 WIDE, 4 HIGH, 5 bytes of the tape. NONE for another what");
-        OwlsLent x = Checks.houseOf("house 9 7;" + bedsAndOwls(6) + sounds(8));
+        OwlsLent x = Checks.houseOf("house 9 7;" + Checks.beds(6) + Checks.owls(6) + Checks.sounds(8));
         int[] due = {6, 6, 8, 9, 7, 0};
         for (int what = 0; what < 6; what++) {
             c.due("count(" + what + ")", x.count(what), due[what]);
         }
         c.due("count(6)", x.count(6), -1);
-        for (int what : NO_SUCH) {
+        for (int what : Checks.NO_SUCH) {
             c.due("count(" + what + ")", x.count(what), -1);
         }
         x.shout(0, 0, 1);
@@ -181,7 +214,7 @@ public final class StateEdgesTest {
     private static void bedsNoSuch() {
         c.says("Of a BED: 0 X .. 5 MISSES. NoSuchElementException: no such ones");
         for (int beds = 0; beds <= 6; beds++) {
-            OwlsLent x = Checks.houseOf(bedsAndOwls(beds));
+            OwlsLent x = Checks.houseOf(Checks.beds(beds) + Checks.owls(beds));
             for (int b = 0; b < 8; b++) {
                 int bed = b;
                 if (b < beds) {
@@ -192,7 +225,7 @@ public final class StateEdgesTest {
                     c.dueNoSuch("bed(" + b + ", 5) of " + beds, () -> x.bed(bed, 5));
                 }
             }
-            for (int no : NO_SUCH) {
+            for (int no : Checks.NO_SUCH) {
                 c.dueNoSuch("bed(" + no + ", 0)", () -> x.bed(no, 0));
                 c.dueNoSuch("bed(0, " + no + ")", () -> x.bed(0, no));
                 c.dueNoSuch("bed(" + no + ", " + no + ")", () -> x.bed(no, no));
@@ -218,7 +251,7 @@ public final class StateEdgesTest {
     private static void owlsNoSuch() {
         c.says("Of an OWL: 0 its BED .. 5 at which SOUND. NoSuchElementException: no such ones");
         for (int owls = 0; owls <= 6; owls++) {
-            OwlsLent x = Checks.houseOf(bedsAndOwls(owls));
+            OwlsLent x = Checks.houseOf(Checks.beds(owls) + Checks.owls(owls));
             for (int o = 0; o < 8; o++) {
                 int owl = o;
                 if (o < owls) {
@@ -229,7 +262,7 @@ public final class StateEdgesTest {
                     c.dueNoSuch("owl(" + o + ", 5) of " + owls, () -> x.owl(owl, 5));
                 }
             }
-            for (int no : NO_SUCH) {
+            for (int no : Checks.NO_SUCH) {
                 c.dueNoSuch("owl(" + no + ", 0)", () -> x.owl(no, 0));
                 c.dueNoSuch("owl(0, " + no + ")", () -> x.owl(0, no));
                 c.dueNoSuch("owl(" + no + ", " + no + ")", () -> x.owl(no, no));
@@ -264,7 +297,7 @@ public final class StateEdgesTest {
         c.due("shut: nowhere", shut.owl(0, 4), -1);
         c.due("shut: at nothing", shut.owl(0, 5), -1);
         for (int n = 0; n <= 8; n++) {
-            OwlsLent y = Checks.houseOf("bed a 0 0;owl o a 1;" + sounds(n));
+            OwlsLent y = Checks.houseOf("bed a 0 0;owl o a 1;" + Checks.sounds(n));
             y.shout(0, 0, 30);
             c.due("the number of the shout behind " + n, y.owl(0, 5), n);
         }
@@ -273,13 +306,13 @@ public final class StateEdgesTest {
     private static void soundsNoSuch() {
         c.says("Of a SOUND: 0 KIND .. 5 hushed. NONE: no such ones");
         for (int sounds = 0; sounds <= 8; sounds++) {
-            OwlsLent x = Checks.houseOf(sounds(sounds));
+            OwlsLent x = Checks.houseOf(Checks.sounds(sounds));
             for (int s = 0; s < 10; s++) {
                 c.due("sound(" + s + ", 3) of " + sounds, x.sound(s, 3), s < sounds ? 9 : -1);
                 c.due("sound(" + s + ", 0) of " + sounds, x.sound(s, 0), s < sounds ? 0 : -1);
                 c.due("sound(" + s + ", 5) of " + sounds, x.sound(s, 5), s < sounds ? 0 : -1);
             }
-            for (int no : NO_SUCH) {
+            for (int no : Checks.NO_SUCH) {
                 c.due("sound(" + no + ", 0)", x.sound(no, 0), -1);
                 c.due("sound(0, " + no + ")", x.sound(0, no), -1);
             }
@@ -312,16 +345,16 @@ public final class StateEdgesTest {
 
     private static void nowOfAnother() {
         c.says("NONE for another what");
-        OwlsLent x = Checks.houseOf(bedsAndOwls(1) + sounds(1));
+        OwlsLent x = Checks.houseOf(Checks.beds(1) + Checks.owls(1) + Checks.sounds(1));
         c.due("now(8)", x.now(8), -1);
-        for (int what : NO_SUCH) {
+        for (int what : Checks.NO_SUCH) {
             c.due("now(" + what + ")", x.now(what), -1);
         }
     }
 
     private static void nowOfAll() {
         c.says("1 SOUNDS that are ON (the SHOUT, too), 2 hushed, 3 OWLS that LOOK at something, as bits each");
-        OwlsLent x = Checks.houseOf(bedsAndOwls(6) + sounds(8));
+        OwlsLent x = Checks.houseOf(Checks.beds(6) + Checks.owls(6) + Checks.sounds(8));
         c.due("all eight are on", x.now(1), 255);
         c.due("all six look", x.now(3), 63);
         x.shout(0, 0, 1);
@@ -353,7 +386,7 @@ public final class StateEdgesTest {
 
     private static void aThrowChangesNothing() {
         c.says("A call that throws changes nothing");
-        OwlsLent x = Checks.houseOf(bedsAndOwls(2) + sounds(2));
+        OwlsLent x = Checks.houseOf(Checks.beds(2) + Checks.owls(2) + Checks.sounds(2));
         x.hush(0);
         x.hours(2);
         x.feed(1, 2, 3, 4, 5);
@@ -451,7 +484,7 @@ public final class StateEdgesTest {
         x.shout(0, 0, 1);
         c.dueNoSuch("the shout is no sound", () -> x.loud(3, 0));
         c.dueNoSuch("loud(0, 6)", () -> x.loud(0, 6));
-        for (int no : NO_SUCH) {
+        for (int no : Checks.NO_SUCH) {
             c.dueNoSuch("loud(" + no + ", 0)", () -> x.loud(no, 0));
             c.dueNoSuch("loud(0, " + no + ")", () -> x.loud(0, no));
             c.dueNoSuch("loud(" + no + ", " + no + ")", () -> x.loud(no, no));
@@ -493,7 +526,8 @@ public final class StateEdgesTest {
         int[][] cells = {{2, 1}, {1, 2}, {0, 1}, {1, 0}, {1, 1}};
         for (int i = 0; i < 4; i++) {
             for (int k = 0; k < 4; k++) {
-                OwlsLent deaf = Checks.houseOf("bed a 1 1;owl o a 1;deaf o " + kinds[i] + ";sound s " + kinds[k] + " 0 0 9 0 0;");
+                OwlsLent deaf = Checks.houseOf("bed a 1 1;owl o a 1;deaf o " + kinds[i] + ";sound s " + kinds[k]
+                    + " 0 0 9 0 0;");
                 c.due("deaf to " + kinds[i] + ", a " + kinds[k], deaf.hears(0), i == k ? 0 : 1);
             }
             for (int k = 0; k < 5; k++) {
@@ -502,14 +536,15 @@ public final class StateEdgesTest {
                 c.due("its bad side " + sides[i] + ", a sound at side " + k, bad.hears(0), i == k ? 0 : 1);
             }
         }
-        OwlsLent all = Checks.houseOf("bed a 1 1;owl o a 1;deaf o mouse;deaf o voice;deaf o road;deaf o bell;" + sounds(8));
+        OwlsLent all = Checks.houseOf("bed a 1 1;owl o a 1;deaf o mouse;deaf o voice;deaf o road;deaf o bell;"
+            + Checks.sounds(8));
         all.shout(1, 1, 30);
         c.due("deaf to all", all.hears(0), 0);
     }
 
     private static void looksAtTheFirst() {
         c.says("it LOOKS at the loudest of these (of like ones the first)");
-        OwlsLent x = Checks.houseOf("bed a 0 0;owl o a 1;" + sounds(8));
+        OwlsLent x = Checks.houseOf("bed a 0 0;owl o a 1;" + Checks.sounds(8));
         for (int s = 0; s < 8; s++) {
             c.due("the first of like ones", x.owl(0, 5), s);
             x.hush(s);
@@ -551,7 +586,7 @@ public final class StateEdgesTest {
     private static void knowsAndMisses() {
         c.says("each BED whose OWL LOOKS at something KNOWS once more; each BED MISSES as many more as there are");
         // o looks at t alone of eight that are 9 loud; by b nobody looks; p is deaf
-        OwlsLent x = Checks.houseOf("bed a 0 0;bed b 1 0;bed d 0 1;owl o a 1;owl p d 1;deaf p mouse;" + sounds(8));
+        OwlsLent x = Checks.houseOf("bed a 0 0;bed b 1 0;bed d 0 1;owl o a 1;owl p d 1;deaf p mouse;" + Checks.sounds(8));
         x.hours(1);
         c.due("a knows", x.bed(0, 4), 1);
         c.due("a misses seven", x.bed(0, 5), 7);
@@ -573,7 +608,7 @@ public final class StateEdgesTest {
         x.hush(0);
         x.hours(1);
         c.due("nothing to know", x.bed(0, 4), 3);
-        goTo(x, 6);
+        c.due("to hour 6", x.hours(6 - x.now(0)), 2);
         x.let(0);
         x.hours(1);
         c.due("shut: a knows nothing", x.bed(0, 4), 3);
@@ -582,8 +617,8 @@ public final class StateEdgesTest {
 
     private static void theLastHour() {
         c.says("An HOUR (0 to 399; 400: all are over)");
-        OwlsLent x = Checks.houseOf("bed a 0 0;owl o a 1;sound s mouse 0 0 9 15 15;sound t mouse 0 0 8 16 16;shut 0 0;");
-        goTo(x, 399);
+        OwlsLent x = Checks.houseAt("bed a 0 0;owl o a 1;sound s mouse 0 0 9 15 15;sound t mouse 0 0 8 16 16;"
+            + "shut 0 0;", 399);
         c.due("the hour of the day 15", x.now(1), 1);
         int knew = x.now(5);
         c.due("the last one goes", x.hours(60), 1);
@@ -598,7 +633,7 @@ public final class StateEdgesTest {
 
     private static void newHouse() {
         c.says("A new HOUSE: HOUR 0, nothing hushed, nobody KNOWS or MISSES anything, no SENTENCE; nothing can be undone");
-        String house = bedsAndOwls(3) + sounds(3);
+        String house = Checks.beds(3) + Checks.owls(3) + Checks.sounds(3);
         OwlsLent x = Checks.houseOf("house 7 7;" + house);
         x.lend(0, 0);
         x.hush(0);
@@ -620,5 +655,83 @@ public final class StateEdgesTest {
         c.due("no sentence", x.said(-1), -1);
         c.due("nothing can be undone", x.undo(), -1);
         c.due("nobody has shouted", x.shout(0, 0, 1), 0);
+    }
+
+    private static void newHouseLeavesNothing() {
+        c.says("The tape is the HOUSE now: nothing of the old one is left");
+        OwlsLent x = Checks.houseOf("house 9 2;bed a 0 0;bed b 1 0;owl o a 9;owl p b 9;bad o east;bad p west;deaf o bell;"
+            + "deaf p road;wants a road;wants b bell;sound s bell 8 1 30 5 6;sound t road 7 0 29 7 8;shut 0 23;");
+        Checks.put(x, "bed q 2 3;bed r 4 5;owl u q 1;owl v r 2;sound w mouse 5 5 1 0 0;");
+        x.house();
+        int[] counts = {2, 2, 1, 6, 6, 0};
+        int[] beds = {4, 5, 1, -1, 0, 0};
+        int[] owls = {1, 2, -1, 0, 0, 0};
+        int[] sounds = {0, 5, 5, 1, 1, 0};
+        for (int what = 0; what < 6; what++) {
+            c.due("count(" + what + ")", x.count(what), counts[what]);
+            c.due("bed(1, " + what + ")", x.bed(1, what), beds[what]);
+            c.due("sound(0, " + what + ")", x.sound(0, what), sounds[what]);
+        }
+        x.shout(5, 5, 9);
+        owls[5] = 1;
+        for (int what = 0; what < 6; what++) {
+            c.due("owl(1, " + what + ")", x.owl(1, what), owls[what]);
+        }
+        c.due("no second sound", x.sound(1, 0), -1);
+        c.due("not shut", x.now(4), 0);
+        x.note(1);
+        c.due("the new names", x.byteAt(0), 'r');
+        Checks.put(x, "hush t;");
+        c.due("not the old ones", x.book(0), -7);
+    }
+
+    private static void theLastOnes() {
+        c.says("numbered from 0 each: the sixth bed, the sixth owl, the eighth sound are as the others");
+        String house = Checks.beds(6) + Checks.owls(6) + Checks.sounds(8) + "shut 12 12;";
+        OwlsLent x = Checks.houseOf(house);
+        x.note(5);
+        String note = "bf of looks west";
+        for (int i = 0; i < note.length(); i++) {
+            c.due("byteAt(" + i + ") of '" + note + "'", x.byteAt(i), note.charAt(i));
+        }
+        Checks.put(x, "hush sh;hush sg;lend of bf;");
+        c.due("the line that is wrong", x.book(1), 2);
+        c.due("it is there", x.told(0), 1);
+        c.due("the last two are hushed", x.now(2), 192);
+        c.dueSaid(x, "by of", 5);
+        // the six that are left are 4 loud at the sixth: it misses none of them, and looks at the shout
+        x.shout(5, 0, 30);
+        x.hours(1);
+        x.lend(5, 5);
+        c.due("the sixth knows", x.bed(5, 4), 1);
+        c.due("the sixth misses", x.bed(5, 5), 0);
+        x.image(0);
+        x.shout(5, 0, 30);
+        x.hush(5);
+        x.hours(11);
+        x.shout(5, 0, 30);
+        x.hours(1);
+        c.due("the sixth knows", x.bed(5, 4), 12);
+        c.due("shut: the sixth misses the shout", x.bed(5, 5), 1);
+        c.due("undo() of eight acts", x.undo(), 7);
+        c.due("the sixth knows as before", x.bed(5, 4), 12);
+        c.due("the sixth misses as before", x.bed(5, 5), 0);
+        x.hours(1);
+        c.due("and once more", x.bed(5, 5), 1);
+        c.due("restore(0)", x.restore(0), true);
+        c.due("the sixth knows as kept", x.bed(5, 4), 1);
+        c.due("the sixth misses as kept", x.bed(5, 5), 0);
+        x.note(5);
+        c.due("its name is kept", x.byteAt(1), 'f');
+        c.due("its owl's name is kept", x.byteAt(4), 'f');
+        Checks.put(x, "let sh;hush sh;hush sh;");
+        c.due("the eighth sound's name is kept", x.book(0), 2);
+        x.hours(11);
+        x.shout(5, 0, 30);
+        x.hours(1);
+        Checks.put(x, house);
+        x.house();
+        c.due("a new house: the sixth knows", x.bed(5, 4), 0);
+        c.due("a new house: the sixth misses", x.bed(5, 5), 0);
     }
 }
