@@ -240,9 +240,9 @@ public final class AskEdgesTest {
             }
             c.due("owl 255", spotsOf(x, 30, 255, 4), -1);
         }
-        OwlsLent x = Checks.houseOf("house 3 3;bed a 1 1;owl o a 1;");
         int[] cells = {3, 1, 3, 1, 1};
         for (int side = 0; side < 256; side++) {
+            OwlsLent x = Checks.houseOf("house 3 3;bed a 1 1;owl o a 1;");
             int due = side < 5 ? cells[side] : side == 255 ? 0 : -1;
             c.due("side " + side, spotsOf(x, 30, 0, side), due);
             c.due("side " + side + " behind another", spotsOf(x, 30, 0, 4, 0, side), side == 4 ? 1 : due < 0 ? -1 : 0);
@@ -376,8 +376,8 @@ public final class AskEdgesTest {
 
     private static void keenTriples() {
         c.says("triples of bytes: LOUD, how far, 1 it looked or 0 it did not; 1 to 6 of them; NONE: not as told");
-        OwlsLent x = new OwlsLent();
         for (int bytes = 0; bytes <= 25; bytes++) {
+            OwlsLent x = new OwlsLent();
             int[] tape = new int[bytes];
             for (int i = 0; i < bytes; i++) {
                 tape[i] = i % 3 == 0 ? 9 : i % 3 == 1 ? 4 : 1;
@@ -386,6 +386,7 @@ public final class AskEdgesTest {
             c.due("keen() of " + bytes + " bytes", keenOf(x, tape), asTold ? 5 : -1);
         }
         for (int looked = 0; looked < 256; looked++) {
+            OwlsLent x = new OwlsLent();
             int due = looked == 0 ? 15 : looked == 1 ? 5 : -1;
             c.due("the third byte " + looked, keenOf(x, 9, 4, looked), due);
             c.due("the third byte " + looked + " of the sixth triple",
@@ -397,8 +398,8 @@ public final class AskEdgesTest {
 
     private static void keenNumbers() {
         c.says("numbers 1 to 20 from which on an OWL that is deaf to nothing may HEAR: how many numbers");
-        OwlsLent x = new OwlsLent();
         for (int loud = 0; loud <= 40; loud++) {
+            OwlsLent x = new OwlsLent();
             int heard = Math.min(20, loud);
             c.due("it looked at " + loud, keenOf(x, loud, 0, 1), heard);
             if (heard > 0) {
@@ -412,12 +413,15 @@ public final class AskEdgesTest {
             }
         }
         for (int far = 0; far < 256; far++) {
+            OwlsLent x = new OwlsLent();
             c.due("it looked at 9, so far: " + far, keenOf(x, 9, far, 1), Math.max(0, 9 - far));
             c.due("it did not look at 9, so far: " + far, keenOf(x, 9, far, 0), 20 - Math.max(0, 9 - far));
         }
         for (int loud = 0; loud < 256; loud++) {
+            OwlsLent x = new OwlsLent();
             c.due("any byte is a LOUD here: " + loud, keenOf(x, loud, 0, 1), Math.min(20, loud));
         }
+        OwlsLent x = new OwlsLent();
         c.due("one is left", keenOf(x, 5, 0, 1, 4, 0, 0), 1);
         c.due("none is left", keenOf(x, 5, 0, 1, 5, 0, 0), 0);
         c.due("less than none", keenOf(x, 5, 0, 1, 15, 0, 0), 0);
@@ -556,13 +560,14 @@ public final class AskEdgesTest {
 
     private static void codeNotAsTold() {
         c.says("SIDES or 4; 1 to 8 of them; NONE: not as told, no such one");
-        OwlsLent x = Checks.houseOf(Checks.beds(2) + Checks.owls(1) + Checks.sounds(1));
         for (int n = 0; n <= 20; n++) {
+            OwlsLent x = Checks.houseOf(Checks.beds(2) + Checks.owls(1) + Checks.sounds(1));
             int[] tape = new int[n];
             java.util.Arrays.fill(tape, 4);
             c.due("code() of " + n, codeOf(x, 0, tape), n >= 1 && n <= 8 ? n : -1);
         }
         for (int side = 0; side < 256; side++) {
+            OwlsLent x = Checks.houseOf(Checks.beds(2) + Checks.owls(1) + Checks.sounds(1));
             int due = side == 4 ? 1 : side < 4 ? -2 : -1;
             c.due("code() of the byte " + side, codeOf(x, 0, side), due);
             c.due("code() of the byte " + side + " behind seven", codeOf(x, 0, 4, 4, 4, 4, 4, 4, 4, side),
@@ -902,11 +907,11 @@ public final class AskEdgesTest {
 
     private static void oddsOfSeeds() {
         c.says("seeds x, x and 1, .. by how many a BED MISSES nothing in 12 HOURS DRAWN from now on");
-        OwlsLent x = Checks.houseOf("house 9 9;bed a 0 0;bed b 8 8;owl o a 1;sound s mouse 0 0 5 0 23;");
-        x.hours(20);
-        x.hush(0);
-        int missed = x.bed(1, 5);
         for (int seed : new int[] {0, 5, -9, Checks.MAX, Checks.MAX - 3, Checks.MIN}) {
+            OwlsLent x = Checks.houseOf("house 9 9;bed a 0 0;bed b 8 8;owl o a 1;sound s mouse 0 0 5 0 23;");
+            x.hours(20);
+            x.hush(0);
+            int missed = x.bed(1, 5);
             int due = 0;
             for (int n = 1; n <= 30; n++) {
                 x.drawn(12, seed + n - 1);
@@ -914,11 +919,11 @@ public final class AskEdgesTest {
                 x.undo();
                 c.due("odds(1, " + n + ", " + seed + ")", x.odds(1, n, seed), due);
             }
+            c.due("all stays: the hour", x.now(0), 20);
+            c.due("all stays: hushed", x.now(2), 1);
+            c.due("all stays: missed", x.bed(1, 5), missed);
+            c.due("all stays: what can be undone", x.undo(), 1);
         }
-        c.due("all stays: the hour", x.now(0), 20);
-        c.due("all stays: hushed", x.now(2), 1);
-        c.due("all stays: missed", x.bed(1, 5), missed);
-        c.due("all stays: what can be undone", x.undo(), 1);
     }
 
     private static void oddsAtTheEnd() {

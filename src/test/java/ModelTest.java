@@ -1,24 +1,27 @@
 import java.util.NoSuchElementException;
 import java.util.Random;
 
-/** Long drawn runs of calls: the class and the model must answer alike. The seeds are fixed. */
+/** Drawn runs of all the calls that an object is promised: class and model must answer alike. The seeds are fixed. */
 public final class ModelTest {
     private static final String[] NAMES = {"ann", "bob", "cid", "dot", "eve", "fay", "old", "big", "sly", "wee", "hoo",
         "tawny", "a", "b", "c", "squeak", "cart", "chime", "abcdefg", "owl", "none"};
-    private static final int CALLS = 500;
+    /** What an object answers behind so many calls is free. */
+    private static final int CALLS = 512;
+    private static final int MOST_CALLS_OF_A_STEP = 60;
 
     private final Random random;
     private final OwlsLent x = new OwlsLent();
     private final Model m = new Model();
     private final StringBuilder log = new StringBuilder();
     private int wrong = 0;
+    private int calls = 0;
 
     private ModelTest(long seed) {
         random = new Random(seed);
     }
 
     public static void main(String[] args) {
-        int runs = args.length > 0 ? Integer.parseInt(args[0]) : 400;
+        int runs = args.length > 0 ? Integer.parseInt(args[0]) : 1500;
         int failed = 0;
         for (int seed = 1; seed <= runs && failed < 3; seed++) {
             ModelTest test = new ModelTest(seed);
@@ -206,6 +209,7 @@ public final class ModelTest {
 
     private void put(String text) {
         Checks.put(x, text);
+        calls += 2 + (text.length() + 19) / 20;
         m.tape = text;
         log.append("tape: ").append(text).append('\n');
     }
@@ -233,6 +237,7 @@ public final class ModelTest {
         if (wrong > 0) {
             return;
         }
+        calls++;
         long got = answer(mine);
         long want = answer(its);
         log.append(call).append(" -> ").append(want).append('\n');
@@ -253,8 +258,12 @@ public final class ModelTest {
     private void run() {
         put(houseText());
         same("house()", x::house, m::house);
-        for (int i = 0; i < CALLS && wrong == 0; i++) {
+        while (calls <= CALLS - MOST_CALLS_OF_A_STEP && wrong == 0) {
             step();
+        }
+        while (calls < CALLS && wrong == 0) {
+            int what = of(8);
+            same("now " + what, () -> x.now(what), () -> m.now(what));
         }
     }
 
@@ -266,7 +275,7 @@ public final class ModelTest {
         int seed = random.nextInt();
         switch (of(44)) {
             case 0 -> {
-                if (of(6) == 0) {
+                if (of(3) == 0) {
                     put(spoil(houseText(), 900));
                     same("house()", x::house, m::house);
                     same("fault()", x::fault, () -> m.fault);
@@ -343,8 +352,7 @@ public final class ModelTest {
             }
             case 33 -> {
                 same("note " + b, () -> x.note(b), () -> m.note(b));
-                for (int i = -1; i < 32; i++) {
-                    int k = i;
+                for (int k : new int[] {-1, of(8), of(32), m.note.length() - 1, m.note.length()}) {
                     same("byteAt " + k, () -> x.byteAt(k), () -> m.byteAt(k));
                 }
             }
@@ -401,8 +409,7 @@ public final class ModelTest {
         put(t.toString());
         same("spots", x::spots, m::spots);
         same("next", x::next, () -> m.next);
-        for (int i = -1; i < 82; i++) {
-            int k = i;
+        for (int k : new int[] {-1, 0, of(81), of(9), m.spots.size() - 1, m.spots.size()}) {
             same("spotAt " + k, () -> x.spotAt(k), () -> m.spotAt(k));
         }
     }

@@ -140,9 +140,9 @@ public final class NotesTest {
     }
 
     private static void odds() {
-        OwlsLent x = Checks.houseOf("bed a 0 0;bed b 5 5;sound s mouse 0 0 4 0 23;sound t bell 3 3 30 11 12;");
-        x.hush(1);
         for (int seed = -3; seed < 20; seed++) {
+            OwlsLent x = Checks.houseOf("bed a 0 0;bed b 5 5;sound s mouse 0 0 4 0 23;sound t bell 3 3 30 11 12;");
+            x.hush(1);
             int good = 0;
             for (int i = 0; i < 30; i++) {
                 x.drawn(12, seed + i);
@@ -150,9 +150,9 @@ public final class NotesTest {
                 x.undo();
             }
             c.due("odds(0, 30, " + seed + ")", x.odds(0, 30, seed), good);
+            c.due("it stays as it is", x.now(0), 0);
+            c.due("t is hushed still", x.now(2), 2);
         }
-        c.due("it stays as it is", x.now(0), 0);
-        c.due("t is hushed still", x.now(2), 2);
         OwlsLent y = Checks.houseOf("bed a 0 0;bed b 1 0;owl o a 1;sound s mouse 0 0 30 0 0;");
         y.hours(1);
         int lone = y.bed(1, 5);

@@ -33,6 +33,7 @@ public final class StateEdgesTest {
         newHouse();
         newHouseLeavesNothing();
         theLastOnes();
+        manyCalls();
         c.end();
     }
 
@@ -146,7 +147,7 @@ public final class StateEdgesTest {
     /** The bytes told, and behind them, cut off again, such as would make it another tape. */
     private static void cut(OwlsLent x, String text, int behind) {
         x.end(0);
-        for (int i = 0; i < 47; i++) {
+        for (int i = 0; i < 3; i++) {
             int four = behind << 24 | behind << 16 | behind << 8 | behind;
             x.feed(four, four, four, four, four);
         }
@@ -408,12 +409,14 @@ public final class StateEdgesTest {
 
     private static void hoursOfTheDay() {
         c.says("The hour of the day is HOUR modulo 24. FROM TILL: from the hour FROM on, TILL too");
-        OwlsLent x = Checks.houseOf("sound s mouse 0 0 9 3 5;shut 7 7;");
-        for (int hour = 0; hour <= 400; hour++) {
-            int h = hour % 24;
-            c.due("s is on at " + hour, x.sound(0, 4), h >= 3 && h <= 5 ? 1 : 0);
-            c.due("shut at " + hour, x.now(4), h == 7 ? 1 : 0);
-            x.hours(1);
+        for (int from = 0; from <= 400; from += 100) {
+            OwlsLent x = Checks.houseAt("sound s mouse 0 0 9 3 5;shut 7 7;", from);
+            for (int hour = from; hour <= Math.min(400, from + 100); hour++) {
+                int h = hour % 24;
+                c.due("s is on at " + hour, x.sound(0, 4), h >= 3 && h <= 5 ? 1 : 0);
+                c.due("shut at " + hour, x.now(4), h == 7 ? 1 : 0);
+                x.hours(1);
+            }
         }
     }
 
@@ -733,5 +736,28 @@ public final class StateEdgesTest {
         x.house();
         c.due("a new house: the sixth knows", x.bed(5, 4), 0);
         c.due("a new house: the sixth misses", x.bed(5, 5), 0);
+    }
+
+    private static void manyCalls() {
+        c.says("An object is used for at most 512 calls after it has been made");
+        OwlsLent fed = new OwlsLent();
+        for (int call = 1; call <= 510; call += 2) {
+            c.due("call " + call, fed.feed(0x73687574, 0x20312032, 0x3b202020, 0, 0), 20);
+            c.due("call " + (call + 1), fed.end(call < 509 ? 0 : 9), true);
+        }
+        c.due("call 511", fed.house(), 1);
+        c.due("call 512", fed.fault(), 0);
+        OwlsLent done = new OwlsLent();
+        for (int call = 1; call <= 508; call += 4) {
+            c.due("call " + call, done.shout(5, 5, 30), 0);
+            c.due("call " + (call + 1), done.hours(3), 3);
+            int kept = Math.min(8, 2 * (call / 4) + 2);
+            c.due("call " + (call + 2), done.undo(), kept - 1);
+            c.due("call " + (call + 3), done.hours(1), 1);
+        }
+        c.due("call 509", done.now(0), 127);
+        c.due("call 510", done.now(7), 127);
+        c.due("call 511", done.drawn(60, 1), 60);
+        c.due("call 512", done.now(0), 187);
     }
 }

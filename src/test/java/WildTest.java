@@ -15,13 +15,18 @@ public final class WildTest {
         for (int seed = 1; seed <= 200; seed++) {
             Random random = new Random(seed);
             OwlsLent x = new OwlsLent();
+            int calls = 0;
             if (seed % 4 > 0) {
                 Checks.put(x, HOUSE);
                 c.due("house()", x.house(), 21);
+                calls = 3 + (HOUSE.length() + 19) / 20;
             }
             String threw = "";
-            for (int i = 0; i < 500 && threw.isEmpty(); i++) {
-                threw = call(x, random);
+            // a tape that is put is five calls at most; what is answered behind 512 calls is free
+            for (; calls <= 512 - 5 && threw.isEmpty(); calls += 1) {
+                int which = random.nextInt(43);
+                calls += which == 42 ? 4 : 0;
+                threw = call(x, which, random);
             }
             c.due("seed " + seed + " threw '" + threw + "'", threw.length(), 0);
         }
@@ -33,8 +38,7 @@ public final class WildTest {
         return n == 0 ? random.nextInt() : n < 4 ? EDGES[random.nextInt(EDGES.length)] : random.nextInt(9);
     }
 
-    private static String call(OwlsLent x, Random random) {
-        int which = random.nextInt(43);
+    private static String call(OwlsLent x, int which, Random random) {
         int a = any(random);
         int b = any(random);
         int d = any(random);
