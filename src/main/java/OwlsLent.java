@@ -486,12 +486,12 @@ public final class OwlsLent {
         duelFirst = NONE;
         int heard = s.heardNow(h, o, s.owlBed[o]);
         int free = (1 << h.sounds) - 1 & ~s.hushed;
-        if (endsOn(o, side, n - 1, heard, free, false)) {
+        if (endsOn(present, o, side, n - 1, heard, free, false)) {
             return 1;
         }
         for (int i = 0; i < h.sounds; i++) {
             int left = ~(1 << i);
-            if ((free >> i & 1) == 1 && endsOn(o, side, n - 1, heard & left, free & left, false)) {
+            if ((free >> i & 1) == 1 && endsOn(present, o, side, n - 1, heard & left, free & left, false)) {
                 duelFirst = i;
                 return 1;
             }
@@ -500,20 +500,19 @@ public final class OwlsLent {
     }
 
     /** Whether the owl looks to the side behind all moves, if both play as well as may be. */
-    private boolean endsOn(int o, int side, int moves, int heard, int free, boolean firstMoves) {
-        House h = present.home;
-        State s = present.state;
+    private static boolean endsOn(Image all, int o, int side, int moves, int heard, int free, boolean firstMoves) {
+        House h = all.home;
         if (moves <= 0) {
-            int b = s.owlBed[o];
-            return s.sideFrom(h, b, s.loudest(h, b, heard)) == side;
+            int b = all.state.owlBed[o];
+            return all.state.sideFrom(h, b, all.state.loudest(h, b, heard)) == side;
         }
-        if (endsOn(o, side, moves - 1, heard, free, !firstMoves) == firstMoves) {
+        if (endsOn(all, o, side, moves - 1, heard, free, !firstMoves) == firstMoves) {
             return firstMoves;
         }
         for (int i = 0; i < h.sounds; i++) {
             int left = ~(1 << i);
             if ((free >> i & 1) == 1
-                    && endsOn(o, side, moves - 1, heard & left, free & left, !firstMoves) == firstMoves) {
+                    && endsOn(all, o, side, moves - 1, heard & left, free & left, !firstMoves) == firstMoves) {
                 return firstMoves;
             }
         }
@@ -1872,7 +1871,7 @@ public final class OwlsLent {
             }
             owls = h.owls;
             most = NONE;
-            choose(h, 0, 0, 0);
+            choose(this, h, 0, 0, 0);
             return most;
         }
 
@@ -1888,19 +1887,19 @@ public final class OwlsLent {
             }
         }
 
-        private void choose(House h, int o, int used, int sum) {
+        private static void choose(Best best, House h, int o, int used, int sum) {
             if (o >= h.owls || o >= MOST_OWLS) {
                 // Choices come in their order: a like one behind the first does not count.
-                if (sum > most) {
-                    most = sum;
-                    System.arraycopy(chosen, 0, found, 0, MOST_OWLS);
+                if (sum > best.most) {
+                    best.most = sum;
+                    System.arraycopy(best.chosen, 0, best.found, 0, MOST_OWLS);
                 }
                 return;
             }
             for (int b = 0; b < h.beds; b++) {
                 if ((used >> b & 1) == 0) {
-                    chosen[o] = b;
-                    choose(h, o + 1, used | 1 << b, sum + gain[o][b]);
+                    best.chosen[o] = b;
+                    choose(best, h, o + 1, used | 1 << b, sum + best.gain[o][b]);
                 }
             }
         }

@@ -31,6 +31,7 @@ public final class LanguageTest {
         privateNames(code);
         makesNothing(code);
         methodLengths(code);
+        selfCalls(code);
         c.end();
     }
 
@@ -95,5 +96,24 @@ public final class LanguageTest {
                 from = -1;
             }
         }
+    }
+
+    /** Rule 8: what calls itself is private and static, or one of the private methods that call one another. */
+    private static void selfCalls(String code) {
+        Matcher m = Pattern.compile("(?ms)^( {4}| {8})(?! )([\\w\\[\\] ]*?)(\\w+)\\(([^;{}]*?)\\)[\\w ]* \\{\n(.*?)^\\1\\}").matcher(code);
+        int methods = 0;
+        int own = 0;
+        while (m.find()) {
+            methods++;
+            c.due("parameters of " + m.group(3) + ", seven at most", m.group(4).split(",").length <= 7, true);
+            if (count(m.group(5), "(?<![\\w.])" + m.group(3) + "\\(") > 0) {
+                own++;
+                boolean mutual = m.group(3).equals("readOne");
+                String kind = mutual ? "private" : "private static";
+                c.due(m.group(3) + " calls itself, and is " + kind, m.group(2).startsWith(kind), true);
+            }
+        }
+        c.due("methods that were looked at", methods > 100, true);
+        c.due("methods that call themselves", own, 3);
     }
 }
